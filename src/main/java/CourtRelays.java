@@ -856,7 +856,7 @@ public final class CourtRelays {
         }
 
         int member(int hearing, int place) {
-            if (!has(hearing) || place < 0 || place >= LONGEST_CHAIN) {
+            if (hearing < 0 || hearing >= count || place < 0 || place >= LONGEST_CHAIN) {
                 return NONE;
             }
             return chain[hearing * LONGEST_CHAIN + place];
@@ -877,12 +877,9 @@ public final class CourtRelays {
             size[hearing] = Integer.bitCount(members[hearing]);
         }
 
-        boolean clash(int one, int other) {
-            return start[one] < end(other) && start[other] < end(one);
-        }
-
         boolean listedAndClashing(int other, int hearing) {
-            return other != hearing && isListed(other) && clash(other, hearing);
+            return other != hearing && isListed(other)
+                    && start[other] < end(hearing) && start[hearing] < end(other);
         }
 
         int busyFor(int hearing) {
@@ -972,9 +969,15 @@ public final class CourtRelays {
             }
             prepare(court, hearing);
             for (int length = 1; length <= LONGEST_CHAIN; length++) {
+                int firsts = length > 1 ? beginners : beginners & enders;
                 for (int one = 0; one < people; one++) {
-                    if ((beginners & bitOf(one)) != 0) {
-                        tryFrom(one, length);
+                    if ((firsts & bitOf(one)) == 0) {
+                        continue;
+                    }
+                    if (length > 1) {
+                        trySeconds(one, length);
+                    } else {
+                        offer(alone[one], 1, one, NONE, NONE);
                     }
                 }
             }
@@ -993,23 +996,16 @@ public final class CourtRelays {
             }
         }
 
-        private void tryFrom(int one, int length) {
-            if (length > 1) {
-                trySeconds(one, length);
-            } else if ((enders & bitOf(one)) != 0) {
-                offer(alone[one], 1, one, NONE, NONE);
-            }
-        }
-
         private void trySeconds(int one, int length) {
             int seconds = length > 2 ? followers[one] : followers[one] & enders;
             for (int two = 0; two < people; two++) {
-                if ((seconds & bitOf(two)) != 0) {
-                    if (length > 2) {
-                        tryThirds(one, two);
-                    } else {
-                        offer(shared[one] + shared[two], 2, one, two, NONE);
-                    }
+                if ((seconds & bitOf(two)) == 0) {
+                    continue;
+                }
+                if (length > 2) {
+                    tryThirds(one, two);
+                } else {
+                    offer(shared[one] + shared[two], 2, one, two, NONE);
                 }
             }
         }

@@ -113,7 +113,8 @@ public final class ModelTest {
     private void change() {
         switch (upTo(15)) {
             case 0 -> call("addInterpreter", languages(), once(2) ? 7 : upTo(7), from(1, once(2) ? 100 : 10));
-            case 1, 2 -> call("addHearing", upTo(2), from(1, language), from(1, once(4) ? 2000 : 90), from(10, once(3) ? 240 : 60));
+            case 1, 2 -> call("addHearing", upTo(2), from(1, language), from(1, once(4) ? 2000 : 90),
+                    from(10, once(3) ? 240 : 60));
             case 3 -> call("certify", person(), once(2) ? 7 : upTo(7));
             case 4 -> setting();
             case 5 -> chainCall("assign");
