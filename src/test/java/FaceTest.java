@@ -79,20 +79,29 @@ public final class FaceTest {
         Script.finish();
     }
 
-    /** What LANGUAGE.md asks of the classes inside, as far as it can be seen from here. */
+    /** What LANGUAGE.md asks of the class and those inside it, as far as it can be seen from here. */
     private static void insides(Class<?> face, TreeSet<String> names) {
-        Script.due("at most twelve classes", true, face.getDeclaredClasses().length < 12);
+        keepsRules(face, names);
+        Script.due("at most some twelve classes", true, face.getDeclaredClasses().length <= 12);
         for (Class<?> inside : face.getDeclaredClasses()) {
-            String name = inside.getSimpleName();
-            Script.due(name, "private static final", Modifier.toString(inside.getModifiers()));
-            for (Method method : inside.getDeclaredMethods()) {
-                Script.due(name + " has no name of the face", false, names.contains(method.getName()));
-                Script.due(name + ", parameters", true, method.getParameterCount() <= 7);
-            }
-            for (Field field : inside.getDeclaredFields()) {
-                boolean fixed = !Modifier.isStatic(field.getModifiers()) || Modifier.isFinal(field.getModifiers());
-                Script.due(name + "." + field.getName() + " is no static state", true, fixed);
-            }
+            int modifiers = inside.getModifiers();
+            Script.due(inside.getSimpleName() + " is private or package-visible", false,
+                    Modifier.isPublic(modifiers) || Modifier.isProtected(modifiers));
+            keepsRules(inside, names);
+        }
+    }
+
+    private static void keepsRules(Class<?> type, TreeSet<String> names) {
+        String name = type.getSimpleName();
+        for (Method method : type.getDeclaredMethods()) {
+            boolean hidden = Modifier.isPrivate(method.getModifiers()) && !method.isSynthetic();
+            Script.due(name + "." + method.getName() + " is private with a public one's name", false,
+                    hidden && names.contains(method.getName()));
+            Script.due(name + "." + method.getName() + ", parameters", true, method.getParameterCount() <= 7);
+        }
+        for (Field field : type.getDeclaredFields()) {
+            boolean fixed = !Modifier.isStatic(field.getModifiers()) || Modifier.isFinal(field.getModifiers());
+            Script.due(name + "." + field.getName() + " is no static state", true, fixed);
         }
     }
 }

@@ -52,6 +52,9 @@ public final class ModelTest {
     }
 
     private void call(String name, int... arguments) {
+        if (told.size() >= CALLS) {
+            return;
+        }
         for (int i = 0; i < arguments.length; i++) {
             if (once(60)) {
                 arguments[i] = oddNumber();
@@ -90,6 +93,18 @@ public final class ModelTest {
         }
     }
 
+    /** Mostly a hearing with a chain, where there is one to be found. */
+    private void swap() {
+        int hearing = hearing();
+        for (int i = 0; i < 20 && model.count(4) > 0 && (model.hearing(hearing, 5) == 0 || model.hearing(hearing, 4) != 0); i++) {
+            hearing = hearing();
+        }
+        int size = model.count(1) > 0 ? model.hearing(hearing, 5) : 0;
+        for (int i = 0; i < 4; i++) {
+            call("swap", hearing, upTo(once(6) ? 2 : Math.max(0, size - 1)), person());
+        }
+    }
+
     private void type() {
         StringBuilder text = new StringBuilder();
         int parts = from(1, 3);
@@ -120,7 +135,7 @@ public final class ModelTest {
             case 5 -> chainCall("assign");
             case 6, 7, 8 -> assignCheapest();
             case 9 -> call("release", hearing());
-            case 10 -> call("swap", hearing(), upTo(2), person());
+            case 10 -> swap();
             case 11 -> call("vacate", hearing());
             case 12, 13 -> call("pass", from(1, once(6) ? 500 : 20));
             case 14 -> type();
@@ -153,21 +168,26 @@ public final class ModelTest {
         if (once(2)) {
             call("set", 3, upTo(40));
         }
+        if (once(6)) {
+            for (int i = 0; i < 39; i++) {
+                call("pass", 500);
+            }
+            call("pass", from(1, 500));
+        }
     }
 
     private void run() {
         start();
-        while (agrees && told.size() < CALLS) {
+        while (agrees && told.size() < CALLS - 1) {
             if (once(3)) {
                 ask();
             } else {
                 change();
             }
-            if (once(8)) {
+            if (once(8) || told.size() == CALLS - 1) {
                 call("digest");
             }
         }
-        call("digest");
         if (!agrees) {
             System.out.println(told);
         }

@@ -14,8 +14,11 @@ final class Script {
     private static int rows = 0;
     private static int wrong = 0;
 
+    private static final int MOST_CALLS = 512;
+
     private final String title;
     private CourtRelays court = new CourtRelays();
+    private int calls = 0;
 
     Script(String title) {
         this.title = title;
@@ -49,6 +52,7 @@ final class Script {
 
     Script fresh() {
         court = new CourtRelays();
+        calls = 0;
         return this;
     }
 
@@ -66,12 +70,28 @@ final class Script {
         return this;
     }
 
+    /** Each of the calls throws this exception (and, as with each row, changes nothing). */
+    Script refuses(String exception, String... calls) {
+        for (String call : calls) {
+            row(call + " -> " + exception);
+        }
+        return this;
+    }
+
+    /** The call throws this exception for each of the values in the place of "?". */
+    Script refusesEach(String exception, String call, int... values) {
+        for (int value : values) {
+            row(call.replace("?", String.valueOf(value)) + " -> " + exception);
+        }
+        return this;
+    }
+
     private void row(String row) {
         String[] sides = row.split(" -> ", 2);
         String[] words = sides[0].trim().split(" +");
         if (words[0].equals("text")) {
             for (char c : words[1].toCharArray()) {
-                court.append(c);
+                counted().append(c);
             }
             return;
         }
@@ -79,8 +99,8 @@ final class Script {
         for (int i = 0; i < arguments.length; i++) {
             arguments[i] = Integer.parseInt(words[i + 1]);
         }
-        long before = court.digest();
-        String got = call(court, words[0], arguments);
+        long before = digest();
+        String got = call(counted(), words[0], arguments);
         boolean threw = Character.isUpperCase(got.charAt(0));
         String told = title + ": " + sides[0];
         if (sides.length > 1) {
@@ -89,12 +109,21 @@ final class Script {
             due(told, "no exception", threw ? got : "no exception");
         }
         if (threw || !CHANGING.contains(words[0])) {
-            due(told + ", digest afterwards", before, court.digest());
+            due(told + ", digest afterwards", before, digest());
         }
     }
 
     long digest() {
-        return court.digest();
+        return counted().digest();
+    }
+
+    /** The court for one more call; what it answers after so many calls is free, so no row may lean on it. */
+    private CourtRelays counted() {
+        calls++;
+        if (calls > MOST_CALLS) {
+            throw new IllegalStateException(title + ": too many calls on one object");
+        }
+        return court;
     }
 
     static void finish() {
