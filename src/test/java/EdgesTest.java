@@ -97,9 +97,10 @@ public final class EdgesTest {
             s.rows("count " + what + " -> 0");
         }
         s.rows("firstError -> 0", "clearBuffer -> 0", "mannable -> 0", "missing 0 -> 1022", "missing 2 -> 1022",
-                "doneShare -> 0.0").refuses(INDEX, "certify 0 7", "assign 0 0 -1 -1", "release 0", "swap 0 0 0", "vacate 0",
-                "interpreter 0 0", "hearing 0 0", "whyNot 0 0 -1 -1", "cheapest 0 0", "tiredIn 0 0", "ifVacated 0 0")
-                .refuses(ARGUMENT, "addList").refuses(STATE, "undo").rows("pass 500 -> 0", "count 2 -> 500");
+                "doneShare -> 0.0").refuses(INDEX, "certify 0 7", "assign 0 0 -1 -1", "release 0", "swap 0 0 0",
+                "vacate 0", "interpreter 0 0", "hearing 0 0", "whyNot 0 0 -1 -1", "cheapest 0 0", "tiredIn 0 0",
+                "ifVacated 0 0").refuses(ARGUMENT, "addList").refuses(STATE, "undo").rows("pass 500 -> 0",
+                "count 2 -> 500");
     }
 
     private static void objectsAreApart() {
@@ -118,20 +119,19 @@ public final class EdgesTest {
 
     private static void addInterpreterArguments() {
         says(2, "IllegalArgumentException if an argument is out of range, or languages has less than two")
-                .refusesEach(ARGUMENT, "addInterpreter ? 7 1", LEAST, -1, 0, 1, 2, 4, 8, 16, 32, 64, 128, 256, 512, 1024, 1025,
-                1027, 2047, LEAST + 3, MOST).refusesEach(ARGUMENT, "addInterpreter 3 ? 1", LEAST, -1, 8, 15, MOST)
-                .refusesEach(ARGUMENT, "addInterpreter 3 7 ?", LEAST, -1, 0, 101, MOST)
-                .rows("count 12 -> 0", "addInterpreter 3 0 1 -> 0", "addInterpreter 1023 7 100 -> 1",
-                "addInterpreter 768 0 1 -> 2", "interpreter 0 0 -> 3", "interpreter 0 1 -> 0", "interpreter 0 2 -> 1",
-                "interpreter 1 0 -> 1023", "interpreter 1 1 -> 7", "interpreter 1 2 -> 100", "interpreter 2 0 -> 768",
-                "count 12 -> 3");
+                .refusesEach(ARGUMENT, "addInterpreter ? 7 1", LEAST, -1, 0, 1, 2, 4, 8, 16, 32, 64, 128, 256, 512,
+                1024, 1025, 1027, 2047, LEAST + 3, MOST).refusesEach(ARGUMENT, "addInterpreter 3 ? 1", LEAST, -1, 8, 15,
+                MOST).refusesEach(ARGUMENT, "addInterpreter 3 7 ?", LEAST, -1, 0, 101, MOST).rows("count 12 -> 0",
+                "addInterpreter 3 0 1 -> 0", "addInterpreter 1023 7 100 -> 1", "addInterpreter 768 0 1 -> 2",
+                "interpreter 0 0 -> 3", "interpreter 0 1 -> 0", "interpreter 0 2 -> 1", "interpreter 1 0 -> 1023",
+                "interpreter 1 1 -> 7", "interpreter 1 2 -> 100", "interpreter 2 0 -> 768", "count 12 -> 3");
     }
 
     private static void addInterpreterFull() {
         says(2, "IllegalStateException if there are 10 interpreters").times(9, ONE).rows("addInterpreter 6 5 4 -> 9")
                 .refuses(STATE, ONE, "addInterpreter 1023 7 100").refuses(ARGUMENT, "addInterpreter 1 7 10",
-                "addInterpreter 3 8 10", "addInterpreter 3 7 101").rows("count 0 -> 10", "interpreter 9 0 -> 6", "undo -> 5",
-                "addInterpreter 5 7 1 -> 9").refuses(STATE, ONE);
+                "addInterpreter 3 8 10", "addInterpreter 3 7 101").rows("count 0 -> 10", "interpreter 9 0 -> 6",
+                "undo -> 5", "addInterpreter 5 7 1 -> 9").refuses(STATE, ONE);
     }
 
     // ---- 3: addHearing
@@ -156,13 +156,13 @@ public final class EdgesTest {
     }
 
     private static void addHearingIsListed() {
-        Script s = says(3, "in how many minutes it starts; listed, without a chain").rows("pass 500", "addHearing 1 2 1 10",
-                "addHearing 1 2 2000 240", "hearing 0 2 -> 501", "hearing 1 2 -> 2500", "hearing 0 4 -> 0",
-                "hearing 0 5 -> 0", "hearing 0 6 -> -1", "hearing 0 7 -> -1", "hearing 0 8 -> -1", "hearing 0 9 -> 0",
-                "hearing 0 10 -> 0");
+        Script s = says(3, "in how many minutes it starts; listed, without a chain").rows("pass 500",
+                "addHearing 1 2 1 10", "addHearing 1 2 2000 240", "hearing 0 2 -> 501", "hearing 1 2 -> 2500",
+                "hearing 0 4 -> 0", "hearing 0 5 -> 0", "hearing 0 6 -> -1", "hearing 0 7 -> -1", "hearing 0 8 -> -1",
+                "hearing 0 9 -> 0", "hearing 0 10 -> 0");
         // one that starts beyond the last minute
-        s.fresh().times(40, "pass 500").rows("addHearing 0 1 2000 240 -> 0", "hearing 0 2 -> 22000", "hearing 0 4 -> 0", ONE,
-                "assign 0 0 -1 -1 -> 240", "ifVacated 0 2000 -> -1", "ifVacated 0 1999 -> 240", "vacate 0 -> 0");
+        s.fresh().times(40, "pass 500").rows("addHearing 0 1 2000 240 -> 0", "hearing 0 2 -> 22000", "hearing 0 4 -> 0",
+                ONE, "assign 0 0 -1 -1 -> 240", "ifVacated 0 2000 -> -1", "ifVacated 0 1999 -> 240", "vacate 0 -> 0");
     }
 
     // ---- 4: certify
@@ -175,9 +175,9 @@ public final class EdgesTest {
     }
 
     private static void certifyArguments() {
-        says(4, "IllegalArgumentException if certificates is out of range").rows(ONE)
-                .refusesEach(ARGUMENT, "certify 0 ?", LEAST, -1, 8, 9, MOST).rows("certify 0 0 -> 7", "certify 0 7 -> 0",
-                "certify 0 5 -> 7", "interpreter 0 1 -> 5", "count 12 -> 4");
+        says(4, "IllegalArgumentException if certificates is out of range").rows(ONE).refusesEach(ARGUMENT,
+                "certify 0 ?", LEAST, -1, 8, 9, MOST).rows("certify 0 0 -> 7", "certify 0 7 -> 0", "certify 0 5 -> 7",
+                "interpreter 0 1 -> 5", "count 12 -> 4");
     }
 
     private static void certifyChainsStay() {
@@ -190,18 +190,18 @@ public final class EdgesTest {
     // ---- 5: set
 
     private static void setIndex() {
-        says(5, "IndexOutOfBoundsException if there is no such setting").refusesEach(INDEX, "set ? 0", LEAST, -1, 7, 8, MOST)
-                .refusesEach(INDEX, "set ? -1", -1, 7, LEAST).refusesEach(INDEX, "set ? 5001", -1, 7, MOST)
+        says(5, "IndexOutOfBoundsException if there is no such setting").refusesEach(INDEX, "set ? 0", LEAST, -1, 7, 8,
+                MOST).refusesEach(INDEX, "set ? -1", -1, 7, LEAST).refusesEach(INDEX, "set ? 5001", -1, 7, MOST)
                 .rows("set 0 0 -> 2", "set 6 0 -> 20");
     }
 
     private static void setValue() {
         int[] most = {20, 20, 20, 1000, 2000, 5000, 100};
         for (int setting = 0; setting < 7; setting++) {
-            says(5, "IllegalArgumentException if value is out of range")
-                    .refusesEach(ARGUMENT, "set " + setting + " ?", LEAST, -1, most[setting] + 1, MOST)
-                    .rows("count 12 -> 0", "set " + setting + " " + most[setting], "setting " + setting + " -> " + most[setting],
-                    "set " + setting + " 0 -> " + most[setting], "setting " + setting + " -> 0", "undo -> 1", "undo -> 0");
+            says(5, "IllegalArgumentException if value is out of range").refusesEach(ARGUMENT, "set " + setting + " ?",
+                    LEAST, -1, most[setting] + 1, MOST).rows("count 12 -> 0", "set " + setting + " " + most[setting],
+                    "setting " + setting + " -> " + most[setting], "set " + setting + " 0 -> " + most[setting],
+                    "setting " + setting + " -> 0", "undo -> 1", "undo -> 0");
         }
     }
 
@@ -213,13 +213,12 @@ public final class EdgesTest {
 
     /** What assign and whyNot ask alike of the numbers that they get. */
     private static void rowIndex(int promise, String name) {
-        says(promise, "IndexOutOfBoundsException if there is no such hearing or interpreter: " + name).rows(ONE, ONE, ONE,
-                "addHearing 0 1 5 10", "addHearing 0 1 50 10")
-                .refusesEach(INDEX, name + " ? 0 -1 -1", LEAST, -1, 2, 29, 30, MOST)
-                .refusesEach(INDEX, name + " 0 ? -1 -1", LEAST, -2, -1, 3, 9, 10, 31, 32, 33, MOST)
-                .refusesEach(INDEX, name + " 0 0 ? -1", LEAST, -2, 3, 9, 10, 31, 32, 33, MOST)
-                .refusesEach(INDEX, name + " 0 0 1 ?", LEAST, -2, 3, 9, 10, 31, 32, 33, MOST)
-                .rows(name + " 1 2 -1 -1", name + " 0 2 -1 -1", name + " 1 1 2 -1", name + " 0 0 1 2");
+        says(promise, "IndexOutOfBoundsException if there is no such hearing or interpreter: " + name).rows(ONE, ONE,
+                ONE, "addHearing 0 1 5 10", "addHearing 0 1 50 10").refusesEach(INDEX, name + " ? 0 -1 -1", LEAST, -1,
+                2, 29, 30, MOST).refusesEach(INDEX, name + " 0 ? -1 -1", LEAST, -2, -1, 3, 9, 10, 31, 32, 33, MOST)
+                .refusesEach(INDEX, name + " 0 0 ? -1", LEAST, -2, 3, 9, 10, 31, 32, 33, MOST).refusesEach(INDEX, name
+                + " 0 0 1 ?", LEAST, -2, 3, 9, 10, 31, 32, 33, MOST).rows(name + " 1 2 -1 -1", name + " 0 2 -1 -1", name
+                + " 1 1 2 -1", name + " 0 0 1 2");
         // also if a number comes behind NONE, or two are the same
         says(promise, "several exceptions, the one that is named first: " + name).rows(ONE, ONE, "addHearing 0 1 5 10")
                 .refuses(INDEX, name + " 1 0 0 -1", name + " 1 0 -1 1", name + " -1 0 1 1", name + " 0 0 0 2",
@@ -235,15 +234,17 @@ public final class EdgesTest {
         says(promise, "IllegalArgumentException if a number comes behind NONE: " + name).rows(ONE, ONE, ONE,
                 "addHearing 0 1 5 10").refuses(ARGUMENT, name + " 0 0 -1 1", name + " 0 0 -1 0", name + " 0 2 -1 1")
                 .rows(name + " 0 0 1 -1", name + " 0 0 -1 -1");
-        says(promise, "IllegalArgumentException if two are the same: " + name).rows(ONE, ONE, ONE, "addHearing 0 1 5 10")
-                .refuses(ARGUMENT, name + " 0 0 0 -1", name + " 0 1 1 -1", name + " 0 0 0 1", name + " 0 0 1 0",
-                name + " 0 1 0 0", name + " 0 2 2 2", name + " 0 1 2 1").rows(name + " 0 0 1 2", name + " 0 2 1 0");
+        says(promise, "IllegalArgumentException if two are the same: " + name).rows(ONE, ONE, ONE,
+                "addHearing 0 1 5 10").refuses(ARGUMENT, name + " 0 0 0 -1", name + " 0 1 1 -1", name + " 0 0 0 1", name
+                + " 0 0 1 0", name + " 0 1 0 0", name + " 0 2 2 2", name + " 0 1 2 1").rows(name + " 0 0 1 2", name
+                + " 0 2 1 0");
     }
 
     private static void assignReasons() {
         Script s = says(6, "IllegalStateException if there is a reason against it");
         s.rows(ONE, "addHearing 0 1 5 10", "vacate 0").refuses(STATE, "assign 0 0 -1 -1");
-        s.fresh().rows(ONE, "addHearing 0 1 5 10", "assign 0 0 -1 -1", "pass 15 -> 1").refuses(STATE, "assign 0 0 -1 -1");
+        s.fresh().rows(ONE, "addHearing 0 1 5 10", "assign 0 0 -1 -1", "pass 15 -> 1").refuses(STATE,
+                "assign 0 0 -1 -1");
         s.fresh().rows(ONE, "addHearing 0 1 5 10", "pass 15 -> 0").refuses(STATE, "assign 0 0 -1 -1");
         s.fresh().rows(ONE, "addHearing 0 1 5 10", "pass 4", "assign 0 0 -1 -1 -> 10", "undo", "pass 1")
                 .refuses(STATE, "assign 0 0 -1 -1").rows("pass 9").refuses(STATE, "assign 0 0 -1 -1");
@@ -251,22 +252,24 @@ public final class EdgesTest {
                 .refuses(STATE, "assign 0 0 -1 -1", "assign 0 1 -1 -1", "assign 0 0 1 -1").rows("assign 0 1 0 -1 -> 2");
         s.fresh().rows("addInterpreter 3 6 10", ONE, "addHearing 0 1 5 10").refuses(STATE, "assign 0 0 -1 -1",
                 "assign 0 0 1 -1", "assign 0 1 0 -1").rows("assign 0 1 -1 -1 -> 10");
-        s.fresh().rows(ONE, ONE, "addHearing 0 1 5 10", "addHearing 0 1 14 10", "addHearing 0 1 15 10", "assign 0 0 -1 -1")
-                .refuses(STATE, "assign 1 0 -1 -1", "assign 1 1 0 -1").rows("assign 2 0 -1 -1 -> 10", "assign 1 1 -1 -1 -> 10");
+        s.fresh().rows(ONE, ONE, "addHearing 0 1 5 10", "addHearing 0 1 14 10", "addHearing 0 1 15 10",
+                "assign 0 0 -1 -1").refuses(STATE, "assign 1 0 -1 -1", "assign 1 1 0 -1").rows("assign 2 0 -1 -1 -> 10",
+                "assign 1 1 -1 -1 -> 10");
     }
 
     private static void assignOrder() {
-        says(6, "several exceptions, the one that is named first: assign to a hearing that is not listed").rows(ONE, ONE,
-                "addHearing 0 1 5 10", "vacate 0").refuses(INDEX, "assign 0 2 -1 -1", "assign 0 0 2 -1", "assign 0 0 0 2")
-                .refuses(ARGUMENT, "assign 0 0 0 -1", "assign 0 0 -1 1").refuses(STATE, "assign 0 0 1 -1");
+        says(6, "several exceptions, the one that is named first: assign to a hearing that is not listed").rows(ONE,
+                ONE, "addHearing 0 1 5 10", "vacate 0").refuses(INDEX, "assign 0 2 -1 -1", "assign 0 0 2 -1",
+                "assign 0 0 0 2").refuses(ARGUMENT, "assign 0 0 0 -1", "assign 0 0 -1 1").refuses(STATE,
+                "assign 0 0 1 -1");
     }
 
     private static void assignInPlaceOfOne() {
         says(6, "in place of one that there is").rows(ONE, ONE, ONE, "addHearing 0 1 5 10", "addHearing 0 1 5 10",
                 "assign 0 0 1 2 -> 36", "whyNot 1 1 -1 -1 -> 5", "assign 0 2 -1 -1 -> 10", "hearing 0 5 -> 1",
-                "hearing 0 6 -> 2", "hearing 0 7 -> -1", "hearing 0 8 -> -1", "interpreter 0 5 -> 0", "interpreter 2 5 -> 1",
-                "whyNot 1 1 0 -1 -> 0", "whyNot 1 2 -1 -1 -> 5", "pass 15 -> 1", "interpreter 0 4 -> 0",
-                "interpreter 0 7 -> 0", "interpreter 2 4 -> 10", "interpreter 2 7 -> 10");
+                "hearing 0 6 -> 2", "hearing 0 7 -> -1", "hearing 0 8 -> -1", "interpreter 0 5 -> 0",
+                "interpreter 2 5 -> 1", "whyNot 1 1 0 -1 -> 0", "whyNot 1 2 -1 -1 -> 5", "pass 15 -> 1",
+                "interpreter 0 4 -> 0", "interpreter 0 7 -> 0", "interpreter 2 4 -> 10", "interpreter 2 7 -> 10");
     }
 
     // ---- 7: release
@@ -308,22 +311,24 @@ public final class EdgesTest {
     }
 
     private static void swapPlace() {
-        Script s = says(8, "the place in its chain, from 0; returns who was there").rows(ONE, ONE, ONE, ONE, "addHearing 0 1 5 10")
-                .refuses(INDEX, "swap 0 0 0", "swap 0 -1 0").rows("assign 0 0 -1 -1").refuses(INDEX, "swap 0 1 3")
-                .rows("swap 0 0 3 -> 0", "hearing 0 5 -> 1", "hearing 0 6 -> 3", "assign 0 0 1 -1").refuses(INDEX, "swap 0 2 3")
-                .rows("swap 0 1 3 -> 1", "hearing 0 5 -> 2", "hearing 0 6 -> 0", "hearing 0 7 -> 3", "hearing 0 8 -> -1",
-                "assign 0 0 1 2").refuses(INDEX, "swap 0 3 3");
+        Script s = says(8, "the place in its chain, from 0; returns who was there").rows(ONE, ONE, ONE, ONE,
+                "addHearing 0 1 5 10").refuses(INDEX, "swap 0 0 0", "swap 0 -1 0").rows("assign 0 0 -1 -1")
+                .refuses(INDEX, "swap 0 1 3").rows("swap 0 0 3 -> 0", "hearing 0 5 -> 1", "hearing 0 6 -> 3",
+                "assign 0 0 1 -1").refuses(INDEX, "swap 0 2 3").rows("swap 0 1 3 -> 1", "hearing 0 5 -> 2",
+                "hearing 0 6 -> 0", "hearing 0 7 -> 3", "hearing 0 8 -> -1", "assign 0 0 1 2").refuses(INDEX,
+                "swap 0 3 3");
         s.rows("swap 0 0 3 -> 0", "hearing 0 6 -> 3", "hearing 0 7 -> 1", "hearing 0 8 -> 2", "undo", "swap 0 1 3 -> 1",
-                "hearing 0 6 -> 0", "hearing 0 7 -> 3", "hearing 0 8 -> 2", "undo", "swap 0 2 3 -> 2", "hearing 0 6 -> 0",
-                "hearing 0 7 -> 1", "hearing 0 8 -> 3", "interpreter 2 5 -> 0", "interpreter 3 5 -> 1", "release 0 -> 3")
-                .refuses(INDEX, "swap 0 0 3");
+                "hearing 0 6 -> 0", "hearing 0 7 -> 3", "hearing 0 8 -> 2", "undo", "swap 0 2 3 -> 2",
+                "hearing 0 6 -> 0", "hearing 0 7 -> 1", "hearing 0 8 -> 3", "interpreter 2 5 -> 0",
+                "interpreter 3 5 -> 1", "release 0 -> 3").refuses(INDEX, "swap 0 0 3");
     }
 
     private static void swapInTheChain() {
-        says(8, "IllegalArgumentException if the interpreter is in the chain").rows(ONE, ONE, ONE, "addHearing 0 1 5 10",
-                "assign 0 0 1 2").refuses(ARGUMENT, "swap 0 0 0", "swap 0 0 1", "swap 0 0 2", "swap 0 1 0", "swap 0 1 1",
-                "swap 0 1 2", "swap 0 2 0", "swap 0 2 1", "swap 0 2 2").rows("assign 0 0 -1 -1").refuses(ARGUMENT, "swap 0 0 0")
-                .rows("swap 0 0 2 -> 0").refuses(ARGUMENT, "swap 0 0 2").rows("swap 0 0 0 -> 2");
+        says(8, "IllegalArgumentException if the interpreter is in the chain").rows(ONE, ONE, ONE,
+                "addHearing 0 1 5 10", "assign 0 0 1 2").refuses(ARGUMENT, "swap 0 0 0", "swap 0 0 1", "swap 0 0 2",
+                "swap 0 1 0", "swap 0 1 1", "swap 0 1 2", "swap 0 2 0", "swap 0 2 1", "swap 0 2 2")
+                .rows("assign 0 0 -1 -1").refuses(ARGUMENT, "swap 0 0 0").rows("swap 0 0 2 -> 0").refuses(ARGUMENT,
+                "swap 0 0 2").rows("swap 0 0 0 -> 2");
     }
 
     private static void swapReasons() {
@@ -333,15 +338,15 @@ public final class EdgesTest {
         s.fresh().rows(ONE, ONE, "addHearing 0 1 5 10", "assign 0 0 -1 -1", "vacate 0").refuses(STATE, "swap 0 0 1");
         // {1,2} {2,3} {0,3} {1,4} {0,4}
         s.fresh().rows("addInterpreter 6 7 1", "addInterpreter 12 7 1", "addInterpreter 9 7 1", "addInterpreter 18 7 1",
-                "addInterpreter 17 7 1", "addHearing 0 1 5 10", "assign 0 0 1 2").refuses(STATE, "swap 0 0 3", "swap 0 0 4",
-                "swap 0 1 3", "swap 0 1 4", "swap 0 2 3", "swap 0 2 4");
+                "addInterpreter 17 7 1", "addHearing 0 1 5 10", "assign 0 0 1 2").refuses(STATE, "swap 0 0 3",
+                "swap 0 0 4", "swap 0 1 3", "swap 0 1 4", "swap 0 2 3", "swap 0 2 4");
         s.fresh().rows(ONE, ONE, "addInterpreter 3 6 1", "addHearing 0 1 5 10", "assign 0 0 1 -1").refuses(STATE, "swap 0 0 2",
                 "swap 0 1 2").rows("certify 2 1", "swap 0 0 2 -> 0", "certify 1 0", "swap 0 1 0 -> 1", "undo")
                 // the other one of the chain has lost the certificate since
                 .refuses(STATE, "swap 0 0 0");
-        s.fresh().rows(ONE, ONE, "addHearing 0 1 5 10", "addHearing 0 1 14 10", "addHearing 0 1 15 10", "assign 0 0 -1 -1",
-                "assign 1 1 -1 -1").refuses(STATE, "swap 0 0 1", "swap 1 0 0").rows("release 1", "assign 2 1 -1 -1",
-                "swap 0 0 1 -> 0", "hearing 0 6 -> 1");
+        s.fresh().rows(ONE, ONE, "addHearing 0 1 5 10", "addHearing 0 1 14 10", "addHearing 0 1 15 10",
+                "assign 0 0 -1 -1", "assign 1 1 -1 -1").refuses(STATE, "swap 0 0 1", "swap 1 0 0").rows("release 1",
+                "assign 2 1 -1 -1", "swap 0 0 1 -> 0", "hearing 0 6 -> 1");
     }
 
     private static void swapOrder() {
@@ -381,50 +386,53 @@ public final class EdgesTest {
     // ---- 10: pass
 
     private static void passMinutes() {
-        says(10, "IllegalArgumentException if minutes is out of range").refusesEach(ARGUMENT, "pass ?", LEAST, -1, 0, 501, 502,
-                MOST).rows("count 2 -> 0", "pass 1 -> 0", "count 2 -> 1", "pass 500 -> 0", "count 2 -> 501");
+        says(10, "IllegalArgumentException if minutes is out of range").refusesEach(ARGUMENT, "pass ?", LEAST, -1, 0,
+                501, 502, MOST).rows("count 2 -> 0", "pass 1 -> 0", "count 2 -> 1", "pass 500 -> 0", "count 2 -> 501");
     }
 
     private static void passLast() {
         Script s = says(10, "IllegalStateException if the number of the minute would be above 20000");
         s.times(39, "pass 500").rows("pass 499", "count 2 -> 19999").refuses(STATE, "pass 2", "pass 500")
                 .rows("pass 1 -> 0", "count 2 -> 20000").refuses(STATE, "pass 1", "pass 2", "pass 500")
-                .refuses(ARGUMENT, "pass 0", "pass 501", "pass -1", "pass 2147483647").rows("undo", "undo", "pass 500 -> 0",
-                "count 2 -> 20000").refuses(STATE, "pass 1").rows("undo", "pass 1").refuses(STATE, "pass 500")
-                .rows("pass 499 -> 0", "count 2 -> 20000");
+                .refuses(ARGUMENT, "pass 0", "pass 501", "pass -1", "pass 2147483647").rows("undo", "undo",
+                "pass 500 -> 0", "count 2 -> 20000").refuses(STATE, "pass 1").rows("undo", "pass 1").refuses(STATE,
+                "pass 500").rows("pass 499 -> 0", "count 2 -> 20000");
     }
 
     private static void passAsOneCall() {
-        says(10, "Undoable, as one call; returns how many hearings are done in them").rows(ONE, ONE, "addHearing 0 1 1 10",
-                "addHearing 0 1 11 10", "addHearing 0 1 1 20", "addHearing 0 1 480 20", "assign 0 0 -1 -1", "assign 1 0 -1 -1",
-                "assign 3 1 -1 -1", "count 12 -> 6", "pass 500 -> 3", "count 2 -> 500", "count 6 -> 1", "undo -> 5",
-                "count 2 -> 0", "count 3 -> 4", "pass 499 -> 2", "undo -> 5", "pass 10 -> 0", "pass 1 -> 1", "undo -> 5");
+        says(10, "Undoable, as one call; returns how many hearings are done in them").rows(ONE, ONE,
+                "addHearing 0 1 1 10", "addHearing 0 1 11 10", "addHearing 0 1 1 20", "addHearing 0 1 480 20",
+                "assign 0 0 -1 -1", "assign 1 0 -1 -1", "assign 3 1 -1 -1", "count 12 -> 6", "pass 500 -> 3",
+                "count 2 -> 500", "count 6 -> 1", "undo -> 5", "count 2 -> 0", "count 3 -> 4", "pass 499 -> 2",
+                "undo -> 5", "pass 10 -> 0", "pass 1 -> 1", "undo -> 5");
     }
 
     // ---- 11 to 14: texts
 
     private static void appendCode() {
-        says(11, "IllegalArgumentException if code is not 33 to 126").refusesEach(ARGUMENT, "append ?", LEAST, -1, 0, 10, 32,
-                127, 128, 355, 65569, MOST).rows("append 33 -> 1", "append 126 -> 2", "append 34 -> 3", "append 125 -> 4",
-                "count 12 -> 0", "clearBuffer -> 4");
+        says(11, "IllegalArgumentException if code is not 33 to 126").refusesEach(ARGUMENT, "append ?", LEAST, -1, 0,
+                10, 32, 127, 128, 355, 65569, MOST).rows("append 33 -> 1", "append 126 -> 2", "append 34 -> 3",
+                "append 125 -> 4", "count 12 -> 0", "clearBuffer -> 4");
     }
 
     private static void appendFull() {
         says(11, "IllegalStateException if the buffer has 60 characters").times(59, "append 33").rows("append 33 -> 60")
-                .refuses(STATE, "append 33", "append 126").refuses(ARGUMENT, "append 32", "append 127").rows("clearBuffer -> 60",
-                "append 33 -> 1", "clearBuffer -> 1");
+                .refuses(STATE, "append 33", "append 126").refuses(ARGUMENT, "append 32", "append 127")
+                .rows("clearBuffer -> 60", "append 33 -> 1", "clearBuffer -> 1");
     }
 
     private static void clearBuffer() {
-        says(12, "Returns the length that it had").rows("clearBuffer -> 0", "text c", "clearBuffer -> 1", "clearBuffer -> 0",
-                "firstError -> 0", "text c1@1+10", "clearBuffer -> 7", "text a", "firstError -> 1", "clearBuffer -> 1",
-                "set 0 3", "text abc", "clearBuffer -> 3", "count 12 -> 1", "undo -> 0", "clearBuffer -> 0");
+        says(12, "Returns the length that it had").rows("clearBuffer -> 0", "text c", "clearBuffer -> 1",
+                "clearBuffer -> 0", "firstError -> 0", "text c1@1+10", "clearBuffer -> 7", "text a", "firstError -> 1",
+                "clearBuffer -> 1", "set 0 3", "text abc", "clearBuffer -> 3", "count 12 -> 1", "undo -> 0",
+                "clearBuffer -> 0");
     }
 
     private static void firstError() {
-        says(13, "the length of the buffer if there is none").rows("firstError -> 0", "append 99 -> 1", "firstError -> 1",
-                "append 49 -> 2", "firstError -> 2", "append 64 -> 3", "append 48 -> 4", "firstError -> 3", "append 49 -> 5",
-                "firstError -> 3", "clearBuffer -> 5", "firstError -> 0", "append 64 -> 1", "firstError -> 0");
+        says(13, "the length of the buffer if there is none").rows("firstError -> 0", "append 99 -> 1",
+                "firstError -> 1", "append 49 -> 2", "firstError -> 2", "append 64 -> 3", "append 48 -> 4",
+                "firstError -> 3", "append 49 -> 5", "firstError -> 3", "clearBuffer -> 5", "firstError -> 0",
+                "append 64 -> 1", "firstError -> 0");
     }
 
     private static void addListIncomplete() {
@@ -443,34 +451,36 @@ public final class EdgesTest {
         s.times(27, "addHearing 0 1 1 10").rows("text c1@1+10,c1@1+10,c1@1+10,c1@1+10").refuses(STATE, "addList")
                 .rows("count 1 -> 27", "clearBuffer -> 31", "text c1@1+10,c1@1+10,c1@1+10", "addList -> 30",
                 "clearBuffer -> 0").refuses(ARGUMENT, "addList").rows("text c1@1+10").refuses(STATE, "addList")
-                .rows("text ,").refuses(ARGUMENT, "addList").rows("clearBuffer -> 8", "text x").refuses(ARGUMENT, "addList")
-                .rows("undo -> 5", "count 1 -> 27", "clearBuffer -> 1");
-        s.fresh().times(29, "addHearing 0 1 1 10").rows("text c1@1+10,c1@1+11").refuses(STATE, "addList").rows("clearBuffer -> 15",
-                "text r1@1+10", "addList -> 30", "hearing 29 0 -> 1").refuses(STATE, "addHearing 0 1 1 10");
+                .rows("text ,").refuses(ARGUMENT, "addList").rows("clearBuffer -> 8", "text x").refuses(ARGUMENT,
+                "addList").rows("undo -> 5", "count 1 -> 27", "clearBuffer -> 1");
+        s.fresh().times(29, "addHearing 0 1 1 10").rows("text c1@1+10,c1@1+11").refuses(STATE, "addList")
+                .rows("clearBuffer -> 15", "text r1@1+10", "addList -> 30", "hearing 29 0 -> 1").refuses(STATE,
+                "addHearing 0 1 1 10");
     }
 
     private static void addListAllOrNone() {
-        says(14, "Adds the hearings in the buffer, all or none, and clears the buffer; undoable, as one call").rows("set 0 3",
-                "text c1@1+10,c1@1+10,c1@1+9").refuses(ARGUMENT, "addList").rows("count 1 -> 0", "text 9", "addList -> 3",
-                "hearing 2 3 -> 99", "count 12 -> 2", "clearBuffer -> 0", "undo -> 1", "count 1 -> 0", "clearBuffer -> 0",
-                "pass 7", "text a9@1+10", "addList -> 1", "hearing 0 2 -> 8", "hearing 0 1 -> 9", "hearing 0 0 -> 2");
+        says(14, "Adds the hearings in the buffer, all or none, and clears the buffer; undoable, as one call")
+                .rows("set 0 3", "text c1@1+10,c1@1+10,c1@1+9").refuses(ARGUMENT, "addList").rows("count 1 -> 0",
+                "text 9", "addList -> 3", "hearing 2 3 -> 99", "count 12 -> 2", "clearBuffer -> 0", "undo -> 1",
+                "count 1 -> 0", "clearBuffer -> 0", "pass 7", "text a9@1+10", "addList -> 1", "hearing 0 2 -> 8",
+                "hearing 0 1 -> 9", "hearing 0 0 -> 2");
     }
 
     // ---- 15: undo
 
     private static void undo() {
-        says(15, "IllegalStateException if there is none").refuses(STATE, "undo").rows("append 99", "firstError", "clearBuffer")
-                .refuses(STATE, "undo").rows("set 0 3", "undo -> 0").refuses(STATE, "undo");
-        says(15, "Returns how many saved states are left").rows("set 0 3", "set 0 4", "set 0 5", "undo -> 2", "setting 0 -> 4",
-                "undo -> 1", "setting 0 -> 3", "set 0 6", "undo -> 1", "setting 0 -> 3", "undo -> 0", "setting 0 -> 2")
-                .refuses(STATE, "undo");
+        says(15, "IllegalStateException if there is none").refuses(STATE, "undo").rows("append 99", "firstError",
+                "clearBuffer").refuses(STATE, "undo").rows("set 0 3", "undo -> 0").refuses(STATE, "undo");
+        says(15, "Returns how many saved states are left").rows("set 0 3", "set 0 4", "set 0 5", "undo -> 2",
+                "setting 0 -> 4", "undo -> 1", "setting 0 -> 3", "set 0 6", "undo -> 1", "setting 0 -> 3", "undo -> 0",
+                "setting 0 -> 2").refuses(STATE, "undo");
     }
 
     // ---- 16 to 19: what there is
 
     private static void interpreterIndex() {
-        says(16, "IndexOutOfBoundsException if there is no such interpreter").refusesEach(INDEX, "interpreter ? 0", 0, -1)
-                .rows(ONE, ONE).refusesEach(INDEX, "interpreter ? 0", LEAST, -1, 2, 9, 10, 31, 32, MOST)
+        says(16, "IndexOutOfBoundsException if there is no such interpreter").refusesEach(INDEX, "interpreter ? 0", 0,
+                -1).rows(ONE, ONE).refusesEach(INDEX, "interpreter ? 0", LEAST, -1, 2, 9, 10, 31, 32, MOST)
                 .refusesEach(INDEX, "interpreter ? 8", -1, 2).refusesEach(INDEX, "interpreter ? -1", -1, 2)
                 .rows("interpreter 0 0 -> 3", "interpreter 1 0 -> 3", "undo").refuses(INDEX, "interpreter 1 0");
     }
@@ -485,20 +495,20 @@ public final class EdgesTest {
     }
 
     private static void interpreterWorks() {
-        says(16, "the hearing in which the interpreter works (of a chain, listed, started), NONE if in none").rows(ONE, ONE,
-                "addHearing 0 1 10 10", "addHearing 0 1 3 10", "addHearing 0 1 20 10", "assign 1 0 -1 -1", "assign 0 1 -1 -1",
-                "assign 2 1 -1 -1", "interpreter 0 6 -> -1", "pass 2", "interpreter 0 6 -> -1", "pass 1", "interpreter 0 6 -> 1",
-                "interpreter 1 6 -> -1", "pass 7", "interpreter 1 6 -> 0", "pass 2", "interpreter 0 6 -> 1", "pass 1 -> 1",
-                "interpreter 0 6 -> -1", "pass 6", "interpreter 1 6 -> 0", "interpreter 1 5 -> 2", "pass 1 -> 1",
-                "interpreter 1 6 -> 2", "interpreter 1 5 -> 1", "pass 10 -> 1", "interpreter 1 6 -> -1",
-                "interpreter 1 5 -> 0", "interpreter 1 7 -> 20", "interpreter 0 7 -> 10");
+        says(16, "the hearing in which the interpreter works (of a chain, listed, started), NONE if in none").rows(ONE,
+                ONE, "addHearing 0 1 10 10", "addHearing 0 1 3 10", "addHearing 0 1 20 10", "assign 1 0 -1 -1",
+                "assign 0 1 -1 -1", "assign 2 1 -1 -1", "interpreter 0 6 -> -1", "pass 2", "interpreter 0 6 -> -1",
+                "pass 1", "interpreter 0 6 -> 1", "interpreter 1 6 -> -1", "pass 7", "interpreter 1 6 -> 0", "pass 2",
+                "interpreter 0 6 -> 1", "pass 1 -> 1", "interpreter 0 6 -> -1", "pass 6", "interpreter 1 6 -> 0",
+                "interpreter 1 5 -> 2", "pass 1 -> 1", "interpreter 1 6 -> 2", "interpreter 1 5 -> 1", "pass 10 -> 1",
+                "interpreter 1 6 -> -1", "interpreter 1 5 -> 0", "interpreter 1 7 -> 20", "interpreter 0 7 -> 10");
     }
 
     private static void hearingIndex() {
         says(17, "IndexOutOfBoundsException if there is no such hearing").refusesEach(INDEX, "hearing ? 0", 0, -1)
-                .rows("addHearing 0 1 5 10", "addHearing 0 1 5 10")
-                .refusesEach(INDEX, "hearing ? 0", LEAST, -1, 2, 29, 30, MOST).refusesEach(INDEX, "hearing ? 12", -1, 2)
-                .refusesEach(INDEX, "hearing ? -1", -1, 2).rows("hearing 1 0 -> 0", "undo").refuses(INDEX, "hearing 1 0");
+                .rows("addHearing 0 1 5 10", "addHearing 0 1 5 10").refusesEach(INDEX, "hearing ? 0", LEAST, -1, 2, 29,
+                30, MOST).refusesEach(INDEX, "hearing ? 12", -1, 2).refusesEach(INDEX, "hearing ? -1", -1, 2)
+                .rows("hearing 1 0 -> 0", "undo").refuses(INDEX, "hearing 1 0");
     }
 
     private static void hearingWhat() {
@@ -511,7 +521,8 @@ public final class EdgesTest {
     }
 
     private static void chain(Script s, int size, int first, int second, int third) {
-        s.rows("hearing 0 5 -> " + size, "hearing 0 6 -> " + first, "hearing 0 7 -> " + second, "hearing 0 8 -> " + third);
+        s.rows("hearing 0 5 -> " + size, "hearing 0 6 -> " + first, "hearing 0 7 -> " + second, "hearing 0 8 -> "
+                + third);
     }
 
     private static void hearingChain() {
@@ -533,9 +544,10 @@ public final class EdgesTest {
 
     private static void hearingClashes() {
         says(17, "listed hearings that clash with it (0 if it is not listed)").rows("addHearing 0 1 5 10",
-                "hearing 0 11 -> 0", "addHearing 0 1 14 10", "addHearing 0 1 15 10", "hearing 0 11 -> 1", "hearing 1 11 -> 2",
-                "hearing 2 11 -> 1", "vacate 1", "hearing 0 11 -> 0", "hearing 1 11 -> 0", "hearing 2 11 -> 0", "undo",
-                "pass 14", "hearing 0 11 -> 1", "pass 1", "hearing 0 11 -> 0", "hearing 1 11 -> 1", "hearing 2 11 -> 1");
+                "hearing 0 11 -> 0", "addHearing 0 1 14 10", "addHearing 0 1 15 10", "hearing 0 11 -> 1",
+                "hearing 1 11 -> 2", "hearing 2 11 -> 1", "vacate 1", "hearing 0 11 -> 0", "hearing 1 11 -> 0",
+                "hearing 2 11 -> 0", "undo", "pass 14", "hearing 0 11 -> 1", "pass 1", "hearing 0 11 -> 0",
+                "hearing 1 11 -> 1", "hearing 2 11 -> 1");
         says(17, "listed hearings that clash with it: all").times(30, "addHearing 0 1 5 10").rows("hearing 0 11 -> 29",
                 "hearing 29 11 -> 29");
     }
@@ -565,8 +577,8 @@ public final class EdgesTest {
     }
 
     private static void setting() {
-        Script s = says(19, "IndexOutOfBoundsException if there is no such setting").refusesEach(INDEX, "setting ?", LEAST, -1,
-                7, 8, MOST);
+        Script s = says(19, "IndexOutOfBoundsException if there is no such setting").refusesEach(INDEX, "setting ?",
+                LEAST, -1, 7, 8, MOST);
         int[] due = {2, 1, 1, 600, 60, 1440, 20};
         for (int i = 0; i < 7; i++) {
             s.rows("setting " + i + " -> " + due[i]);
@@ -581,8 +593,8 @@ public final class EdgesTest {
 
     private static void whyNotArguments() {
         rowArguments(20, "whyNot");
-        says(20, "several exceptions, the one that is named first: whyNot of a hearing that is not listed").rows(ONE, ONE,
-                "addHearing 0 1 5 10", "vacate 0").refuses(INDEX, "whyNot 0 2 -1 -1", "whyNot 0 0 0 2")
+        says(20, "several exceptions, the one that is named first: whyNot of a hearing that is not listed").rows(ONE,
+                ONE, "addHearing 0 1 5 10", "vacate 0").refuses(INDEX, "whyNot 0 2 -1 -1", "whyNot 0 0 0 2")
                 .refuses(ARGUMENT, "whyNot 0 0 0 -1", "whyNot 0 0 -1 1").rows("whyNot 0 0 1 -1 -> 1");
     }
 
@@ -593,26 +605,27 @@ public final class EdgesTest {
                 "whyNot 1 0 1 -1 -> 5", "whyNot 1 0 -1 -1 -> 3", "certify 0 6", "whyNot 1 0 1 -1 -> 4",
                 "whyNot 1 0 -1 -1 -> 3", "certify 0 7", "certify 1 6", "whyNot 1 0 1 -1 -> 4", "whyNot 0 0 1 -1 -> 4",
                 "pass 9", "whyNot 0 0 1 -1 -> 4", "pass 1", "whyNot 0 0 1 -1 -> 2", "whyNot 0 0 -1 -1 -> 2",
-                "whyNot 0 1 0 -1 -> 2", "whyNot 1 0 1 -1 -> 4", "pass 5", "whyNot 1 0 1 -1 -> 2", "whyNot 1 0 -1 -1 -> 2");
+                "whyNot 0 1 0 -1 -> 2", "whyNot 1 0 1 -1 -> 4", "pass 5", "whyNot 1 0 1 -1 -> 2",
+                "whyNot 1 0 -1 -1 -> 2");
         s.rows("pass 15 -> 1", "whyNot 0 0 1 -1 -> 1", "whyNot 0 0 -1 -1 -> 1", "whyNot 1 0 1 -1 -> 2", "pass 5 -> 0",
                 "hearing 1 4 -> 2", "whyNot 1 0 1 -1 -> 1", "whyNot 1 1 -1 -1 -> 1");
-        says(20, "1 the hearing is not listed; vacated ahead of its start").rows(ONE, "addHearing 0 1 10 20", "vacate 0",
-                "whyNot 0 0 -1 -1 -> 1", "pass 10", "whyNot 0 0 -1 -1 -> 1");
+        says(20, "1 the hearing is not listed; vacated ahead of its start").rows(ONE, "addHearing 0 1 10 20",
+                "vacate 0", "whyNot 0 0 -1 -1 -> 1", "pass 10", "whyNot 0 0 -1 -1 -> 1");
     }
 
     // ---- 21: cheapest
 
     private static void cheapestIndex() {
         says(21, "IndexOutOfBoundsException if there is no such hearing").refusesEach(INDEX, "cheapest ? 0", 0, -1)
-                .rows(ONE, "addHearing 0 1 5 10", "addHearing 0 1 5 10")
-                .refusesEach(INDEX, "cheapest ? 0", LEAST, -1, 2, 29, 30, MOST).refusesEach(INDEX, "cheapest ? 5", -1, 2)
-                .refusesEach(INDEX, "cheapest ? -1", -1, 2).rows("cheapest 1 0 -> 10");
+                .rows(ONE, "addHearing 0 1 5 10", "addHearing 0 1 5 10").refusesEach(INDEX, "cheapest ? 0", LEAST, -1,
+                2, 29, 30, MOST).refusesEach(INDEX, "cheapest ? 5", -1, 2).refusesEach(INDEX, "cheapest ? -1", -1, 2)
+                .rows("cheapest 1 0 -> 10");
     }
 
     private static void cheapestWhat() {
         says(21, "IllegalArgumentException if what is not 0 to 4").rows(ONE, "addHearing 0 1 5 10")
-                .refusesEach(ARGUMENT, "cheapest 0 ?", LEAST, -1, 5, 6, MOST).rows("cheapest 0 0 -> 10", "cheapest 0 1 -> 1",
-                "cheapest 0 2 -> 0", "cheapest 0 3 -> -1", "cheapest 0 4 -> -1", "vacate 0")
+                .refusesEach(ARGUMENT, "cheapest 0 ?", LEAST, -1, 5, 6, MOST).rows("cheapest 0 0 -> 10",
+                "cheapest 0 1 -> 1", "cheapest 0 2 -> 0", "cheapest 0 3 -> -1", "cheapest 0 4 -> -1", "vacate 0")
                 .refusesEach(ARGUMENT, "cheapest 0 ?", -1, 5);
     }
 
@@ -629,7 +642,8 @@ public final class EdgesTest {
         noChain(s.fresh().rows(ONE, "addHearing 0 1 5 10", "vacate 0"), 0);
         noChain(s.fresh().rows(ONE, "addHearing 0 1 5 10", "pass 4", "cheapest 0 0 -> 10", "pass 1"), 0);
         noChain(s.rows("pass 10", "hearing 0 4 -> 2"), 0);
-        noChain(s.fresh().rows(ONE, "addHearing 0 1 5 10", "assign 0 0 -1 -1", "cheapest 0 0 -> 10", "pass 15 -> 1"), 0);
+        noChain(s.fresh().rows(ONE, "addHearing 0 1 5 10", "assign 0 0 -1 -1", "cheapest 0 0 -> 10", "pass 15 -> 1"),
+                0);
         noChain(s.fresh().rows(ONE, "addHearing 0 1 5 10", "addHearing 0 1 14 10", "assign 0 0 -1 -1"), 1);
         // four would be needed
         noChain(s.fresh().rows("addInterpreter 6 7 1", "addInterpreter 12 7 1", "addInterpreter 24 7 1",
@@ -662,8 +676,8 @@ public final class EdgesTest {
         best(s.fresh().rows("addInterpreter 6 7 1", "addInterpreter 9 7 1", "addInterpreter 10 7 1",
                 "addInterpreter 5 7 1", "addHearing 0 1 5 10"), 2, 2, 0, 3, -1);
         // the second one is 0
-        best(s.fresh().rows("addInterpreter 5 7 1", "addInterpreter 6 7 1", "addInterpreter 5 7 1", "addHearing 0 1 5 10"),
-                2, 2, 1, 0, -1);
+        best(s.fresh().rows("addInterpreter 5 7 1", "addInterpreter 6 7 1", "addInterpreter 5 7 1",
+                "addHearing 0 1 5 10"), 2, 2, 1, 0, -1);
         // {0,3} {2,3} {1,2} {1,2} {2,3} {0,3}
         s = says(21, "then the lowest second one, then the lowest third one");
         best(s.rows("addInterpreter 9 7 1", "addInterpreter 12 7 1", "addInterpreter 6 7 1", "addInterpreter 6 7 1",
@@ -697,18 +711,18 @@ public final class EdgesTest {
     }
 
     private static void tiredInMinutes() {
-        says(22, "IllegalArgumentException if minutes is out of range").rows(ONE, "set 0 20", "set 2 0", "addHearing 0 1 1 20",
-                "assign 0 0 -1 -1").refusesEach(ARGUMENT, "tiredIn 0 ?", LEAST, -1, 501, 502, MOST).rows("tiredIn 0 0 -> 0",
-                "tiredIn 0 1 -> 0", "tiredIn 0 2 -> 20", "tiredIn 0 500 -> 400", "pass 3", "tiredIn 0 0 -> 40",
-                "tiredIn 0 1 -> 60", "count 2 -> 3", "set 2 1", "tiredIn 0 418 -> 0", "tiredIn 0 417 -> 1",
-                "tiredIn 0 500 -> 0");
+        says(22, "IllegalArgumentException if minutes is out of range").rows(ONE, "set 0 20", "set 2 0",
+                "addHearing 0 1 1 20", "assign 0 0 -1 -1").refusesEach(ARGUMENT, "tiredIn 0 ?", LEAST, -1, 501, 502,
+                MOST).rows("tiredIn 0 0 -> 0", "tiredIn 0 1 -> 0", "tiredIn 0 2 -> 20", "tiredIn 0 500 -> 400",
+                "pass 3", "tiredIn 0 0 -> 40", "tiredIn 0 1 -> 60", "count 2 -> 3", "set 2 1", "tiredIn 0 418 -> 0",
+                "tiredIn 0 417 -> 1", "tiredIn 0 500 -> 0");
     }
 
     private static void tiredInIfNothingElse() {
         Script s = says(22, "hearings that would be adjourned in them are").rows(ONE, "set 3 19", "addHearing 0 1 1 10",
-                "addHearing 0 1 11 10", "assign 0 0 -1 -1", "assign 1 0 -1 -1", "tiredIn 0 11 -> 20", "tiredIn 0 12 -> 19",
-                "tiredIn 0 21 -> 10", "set 3 20", "tiredIn 0 12 -> 22", "tiredIn 0 21 -> 40", "hearing 1 4 -> 0",
-                "count 2 -> 0", "count 8 -> 0");
+                "addHearing 0 1 11 10", "assign 0 0 -1 -1", "assign 1 0 -1 -1", "tiredIn 0 11 -> 20",
+                "tiredIn 0 12 -> 19", "tiredIn 0 21 -> 10", "set 3 20", "tiredIn 0 12 -> 22", "tiredIn 0 21 -> 40",
+                "hearing 1 4 -> 0", "count 2 -> 0", "count 8 -> 0");
         // the number of the minute would be above 20000
         s.fresh().times(39, "pass 500").rows("pass 490", ONE, "set 0 5", "addHearing 0 1 4 20", "assign 0 0 -1 -1",
                 "tiredIn 0 10 -> 30", "tiredIn 0 24 -> 100", "tiredIn 0 34 -> 90", "pass 10", "interpreter 0 3 -> 30",
@@ -726,19 +740,20 @@ public final class EdgesTest {
     }
 
     private static void ifVacatedMinutes() {
-        says(23, "IllegalArgumentException if minutes is out of range").rows(ONE, "addHearing 0 1 2000 25", "assign 0 0 -1 -1")
-                .refusesEach(ARGUMENT, "ifVacated 0 ?", LEAST, -1, 2001, 2002, MOST).rows("ifVacated 0 0 -> 0",
-                "ifVacated 0 560 -> 0", "ifVacated 0 561 -> 12", "ifVacated 0 1940 -> 12", "ifVacated 0 1941 -> 25",
-                "ifVacated 0 1999 -> 25", "ifVacated 0 2000 -> -1", "vacate 0")
+        says(23, "IllegalArgumentException if minutes is out of range").rows(ONE, "addHearing 0 1 2000 25",
+                "assign 0 0 -1 -1").refusesEach(ARGUMENT, "ifVacated 0 ?", LEAST, -1, 2001, 2002, MOST)
+                .rows("ifVacated 0 0 -> 0", "ifVacated 0 560 -> 0", "ifVacated 0 561 -> 12", "ifVacated 0 1940 -> 12",
+                "ifVacated 0 1941 -> 25", "ifVacated 0 1999 -> 25", "ifVacated 0 2000 -> -1", "vacate 0")
                 .refusesEach(ARGUMENT, "ifVacated 0 ?", -1, 2001);
     }
 
     private static void ifVacatedNone() {
         Script s = says(23, "NONE if it is not listed, or would have started by then");
         s.rows(ONE, "addHearing 0 1 5 10", "ifVacated 0 0 -> 0", "ifVacated 0 4 -> 0", "ifVacated 0 5 -> -1",
-                "assign 0 0 -1 -1", "ifVacated 0 0 -> 10", "ifVacated 0 4 -> 10", "ifVacated 0 5 -> -1", "ifVacated 0 6 -> -1",
-                "pass 4", "ifVacated 0 0 -> 10", "ifVacated 0 1 -> -1", "vacate 0 -> 10", "ifVacated 0 0 -> -1", "undo",
-                "pass 1", "ifVacated 0 0 -> -1", "ifVacated 0 2000 -> -1", "pass 10 -> 1", "ifVacated 0 0 -> -1");
+                "assign 0 0 -1 -1", "ifVacated 0 0 -> 10", "ifVacated 0 4 -> 10", "ifVacated 0 5 -> -1",
+                "ifVacated 0 6 -> -1", "pass 4", "ifVacated 0 0 -> 10", "ifVacated 0 1 -> -1", "vacate 0 -> 10",
+                "ifVacated 0 0 -> -1", "undo", "pass 1", "ifVacated 0 0 -> -1", "ifVacated 0 2000 -> -1",
+                "pass 10 -> 1", "ifVacated 0 0 -> -1");
         s.fresh().rows("addHearing 0 1 5 10", "vacate 0", "ifVacated 0 0 -> -1", "addHearing 0 1 5 10", "pass 15",
                 "hearing 1 4 -> 2", "ifVacated 1 0 -> -1");
     }
@@ -746,21 +761,21 @@ public final class EdgesTest {
     // ---- 24: mannable
 
     private static void mannable() {
-        says(24, "listed hearings that have not started, and are not manned").rows("mannable -> 0", ONE, "mannable -> 0",
-                "addHearing 0 1 5 10", "mannable -> 1", "pass 4", "mannable -> 1", "pass 1", "mannable -> 0",
-                "addHearing 0 1 50 10", "mannable -> 1", "assign 1 0 -1 -1", "mannable -> 0", "release 1", "mannable -> 1",
-                "vacate 1", "mannable -> 0", "count 4 -> 0");
-        says(24, "if there is one by then").rows(ONE, "addHearing 0 1 5 10", "addHearing 0 1 14 10", "addHearing 0 1 15 10",
-                "mannable -> 2", "hearing 0 5 -> 0", "hearing 2 5 -> 0", "assign 1 0 -1 -1", "mannable -> 0", ONE,
-                "mannable -> 2", "count 12 -> 6");
+        says(24, "listed hearings that have not started, and are not manned").rows("mannable -> 0", ONE,
+                "mannable -> 0", "addHearing 0 1 5 10", "mannable -> 1", "pass 4", "mannable -> 1", "pass 1",
+                "mannable -> 0", "addHearing 0 1 50 10", "mannable -> 1", "assign 1 0 -1 -1", "mannable -> 0",
+                "release 1", "mannable -> 1", "vacate 1", "mannable -> 0", "count 4 -> 0");
+        says(24, "if there is one by then").rows(ONE, "addHearing 0 1 5 10", "addHearing 0 1 14 10",
+                "addHearing 0 1 15 10", "mannable -> 2", "hearing 0 5 -> 0", "hearing 2 5 -> 0", "assign 1 0 -1 -1",
+                "mannable -> 0", ONE, "mannable -> 2", "count 12 -> 6");
         // the cheapest one for the first is the only one for the second; by ascending numbers
         says(24, "by ascending numbers").rows("addInterpreter 7 7 1", "addInterpreter 3 7 2", "addHearing 0 1 5 10",
                 "addHearing 0 2 5 10", "mannable -> 1");
         says(24, "by ascending numbers, the other way round").rows("addInterpreter 7 7 1", "addInterpreter 3 7 2",
                 "addHearing 0 2 5 10", "addHearing 0 1 5 10", "mannable -> 2");
-        says(24, "the cheapest chain was assigned").rows("addInterpreter 3 7 2", "addInterpreter 7 7 1", "addHearing 0 1 5 10",
-                "addHearing 0 2 5 10", "mannable -> 1", "undo", "undo", "undo", "addInterpreter 7 7 3", "addHearing 0 1 5 10",
-                "addHearing 0 2 5 10", "mannable -> 2");
+        says(24, "the cheapest chain was assigned").rows("addInterpreter 3 7 2", "addInterpreter 7 7 1",
+                "addHearing 0 1 5 10", "addHearing 0 2 5 10", "mannable -> 1", "undo", "undo", "undo",
+                "addInterpreter 7 7 3", "addHearing 0 1 5 10", "addHearing 0 2 5 10", "mannable -> 2");
         says(24, "with certificates for its kind").rows("addInterpreter 3 4 1", "addHearing 0 1 5 10", "mannable -> 0",
                 "addHearing 1 1 5 10", "mannable -> 0", "addHearing 2 1 5 10", "mannable -> 1", "certify 0 2",
                 "mannable -> 1", "certify 0 0", "mannable -> 0");
@@ -782,9 +797,9 @@ public final class EdgesTest {
     // ---- 25: missing
 
     private static void missingKind() {
-        says(25, "IllegalArgumentException if kind is out of range").rows("addInterpreter 3 1 1", "addInterpreter 5 2 1",
-                "addInterpreter 9 4 1").refusesEach(ARGUMENT, "missing ?", LEAST, -1, 3, 4, MOST).rows("missing 0 -> 1020",
-                "missing 1 -> 1018", "missing 2 -> 1014");
+        says(25, "IllegalArgumentException if kind is out of range").rows("addInterpreter 3 1 1",
+                "addInterpreter 5 2 1", "addInterpreter 9 4 1").refusesEach(ARGUMENT, "missing ?", LEAST, -1, 3, 4,
+                MOST).rows("missing 0 -> 1020", "missing 1 -> 1018", "missing 2 -> 1014");
     }
 
     private static void missingLanguages() {
@@ -805,8 +820,8 @@ public final class EdgesTest {
     private static void doneShare() {
         says(26, "0.0 if that is 0").rows("doneShare -> 0.0", "addInterpreter 3 7 1", "addHearing 0 1 100 10",
                 "addHearing 0 1 5 10", "assign 0 0 -1 -1", "vacate 0 -> 0", "count 8 -> 0", "doneShare -> 0.0",
-                "assign 1 0 -1 -1", "vacate 1 -> 1", "doneShare -> 0.0", "undo", "pass 14", "doneShare -> 0.0", "pass 1 -> 1",
-                "doneShare -> 1.0");
+                "assign 1 0 -1 -1", "vacate 1 -> 1", "doneShare -> 0.0", "undo", "pass 14", "doneShare -> 0.0",
+                "pass 1 -> 1", "doneShare -> 1.0");
         says(26, "divided by count(8), as a double").rows(ONE, "addHearing 0 1 1 10", "addHearing 0 1 20 20",
                 "assign 0 0 -1 -1", "assign 1 0 -1 -1", "vacate 1 -> 20", "pass 11 -> 1", "doneShare -> " + 10 / 30.0,
                 "set 3 0", "addHearing 0 1 1 10", "assign 2 0 -1 -1", "pass 1", "hearing 2 4 -> 2",

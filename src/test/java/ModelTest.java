@@ -34,8 +34,8 @@ public final class ModelTest {
     }
 
     private int oddNumber() {
-        int[] odd = {Integer.MIN_VALUE, -1000, -2, -1, 0, 1, 7, 8, 9, 10, 11, 12, 13, 29, 30, 31, 60, 101, 240, 241, 500,
-            501, 1023, 1024, 2000, 2001, 5001, 20001, Integer.MAX_VALUE};
+        int[] odd = {Integer.MIN_VALUE, -1000, -2, -1, 0, 1, 7, 8, 9, 10, 11, 12, 13, 29, 30, 31, 60, 101, 240, 241,
+                500, 501, 1023, 1024, 2000, 2001, 5001, 20001, Integer.MAX_VALUE};
         return odd[upTo(odd.length - 1)];
     }
 
@@ -96,13 +96,17 @@ public final class ModelTest {
     /** Mostly a hearing with a chain, where there is one to be found. */
     private void swap() {
         int hearing = hearing();
-        for (int i = 0; i < 20 && model.count(4) > 0 && (model.hearing(hearing, 5) == 0 || model.hearing(hearing, 4) != 0); i++) {
+        for (int i = 0; i < 20 && model.count(4) > 0 && !isListedAndManned(hearing); i++) {
             hearing = hearing();
         }
         int size = model.count(1) > 0 ? model.hearing(hearing, 5) : 0;
         for (int i = 0; i < 4; i++) {
             call("swap", hearing, upTo(once(6) ? 2 : Math.max(0, size - 1)), person());
         }
+    }
+
+    private boolean isListedAndManned(int hearing) {
+        return model.hearing(hearing, 4) == 0 && model.hearing(hearing, 5) > 0;
     }
 
     private void type() {

@@ -163,18 +163,18 @@ public final class PromisesTest {
                 "hearing 3 10 -> 0", "interpreter 1 4 -> 60", "pass 58", "vacate 3 -> 127", "undo", "pass 1",
                 "vacate 3 -> IllegalState");
         // full pay where the notice for full pay is longer than that for half pay
-        s.fresh().rows("addInterpreter 3 7 10", "addHearing 0 1 50 25", "assign 0 0 -1 -1 -> 25", "set 4 60", "set 5 10",
-                "ifVacated 0 0 -> 25", "set 4 50", "ifVacated 0 0 -> 0", "set 5 51", "vacate 0 -> 12");
+        s.fresh().rows("addInterpreter 3 7 10", "addHearing 0 1 50 25", "assign 0 0 -1 -1 -> 25", "set 4 60",
+                "set 5 10", "ifVacated 0 0 -> 25", "set 4 50", "ifVacated 0 0 -> 0", "set 5 51", "vacate 0 -> 12");
     }
 
     private static void pass() {
         Script s = relay("10 pass");
-        s.rows("pass 0 -> IllegalArgument", "pass 501 -> IllegalArgument", "pass -1 -> IllegalArgument", "count 12 -> 4",
-                "addHearing 0 1 10 33", "addHearing 0 1 10 20", "addHearing 2 1 43 10", "assign 0 0 1 2",
-                "assign 2 0 1 2", "pass 10 -> 0", "count 2 -> 10", "count 11 -> 3", "interpreter 0 6 -> 0",
-                "interpreter 3 6 -> -1", "pass 19 -> 0", "hearing 1 4 -> 0", "pass 1 -> 0", "hearing 1 4 -> 2",
-                "hearing 1 10 -> 0", "count 6 -> 1", "pass 12 -> 0", "hearing 0 4 -> 0", "pass 1 -> 1",
-                "hearing 0 4 -> 1", "hearing 0 10 -> 127", "hearing 0 5 -> 3", "interpreter 0 4 -> 39",
+        s.rows("pass 0 -> IllegalArgument", "pass 501 -> IllegalArgument", "pass -1 -> IllegalArgument",
+                "count 12 -> 4", "addHearing 0 1 10 33", "addHearing 0 1 10 20", "addHearing 2 1 43 10",
+                "assign 0 0 1 2", "assign 2 0 1 2", "pass 10 -> 0", "count 2 -> 10", "count 11 -> 3",
+                "interpreter 0 6 -> 0", "interpreter 3 6 -> -1", "pass 19 -> 0", "hearing 1 4 -> 0", "pass 1 -> 0",
+                "hearing 1 4 -> 2", "hearing 1 10 -> 0", "count 6 -> 1", "pass 12 -> 0", "hearing 0 4 -> 0",
+                "pass 1 -> 1", "hearing 0 4 -> 1", "hearing 0 10 -> 127", "hearing 0 5 -> 3", "interpreter 0 4 -> 39",
                 "interpreter 1 4 -> 60", "interpreter 2 4 -> 28", "interpreter 0 7 -> 33", "interpreter 3 7 -> 0",
                 "interpreter 0 3 -> 99", "interpreter 0 6 -> 2", "count 8 -> 127", "count 5 -> 1", "undo -> 5",
                 "hearing 0 4 -> 0", "count 2 -> 42", "interpreter 0 4 -> 0", "interpreter 0 7 -> 32", "pass 500 -> 2",
@@ -324,12 +324,14 @@ public final class PromisesTest {
                 // the addInterpreter was the oldest, and was dropped with the vacate; addHearing with addList
                 "count 0 -> 1", "count 1 -> 1", "undo -> IllegalState");
         s.fresh().times(9, "addHearing 0 1 1 10").rows("count 12 -> 6", "undo -> 5", "undo -> 4", "addHearing 1 1 1 10",
-                "undo -> 4", "undo -> 3", "undo -> 2", "undo -> 1", "undo -> 0", "count 1 -> 3", "undo -> IllegalState");
+                "undo -> 4", "undo -> 3", "undo -> 2", "undo -> 1", "undo -> 0", "count 1 -> 3",
+                "undo -> IllegalState");
         // chains of the last hearings come back as well as those of the first
         s.fresh().rows("addInterpreter 3 7 10", "addInterpreter 3 7 10").times(30, "addHearing 0 1 5 10")
-                .rows("assign 29 0 -1 -1", "assign 0 1 -1 -1", "vacate 29", "vacate 0", "undo", "undo", "release 29 -> 1",
-                "release 0 -> 1", "undo", "undo", "hearing 29 6 -> 0", "hearing 0 6 -> 1", "swap 29 0 1 -> IllegalState",
-                "interpreter 0 5 -> 1", "undo", "assign 29 1 -1 -1", "undo", "hearing 29 6 -> 0");
+                .rows("assign 29 0 -1 -1", "assign 0 1 -1 -1", "vacate 29", "vacate 0", "undo", "undo",
+                "release 29 -> 1", "release 0 -> 1", "undo", "undo", "hearing 29 6 -> 0", "hearing 0 6 -> 1",
+                "swap 29 0 1 -> IllegalState", "interpreter 0 5 -> 1", "undo", "assign 29 1 -1 -1", "undo",
+                "hearing 29 6 -> 0");
         // the buffer is no part of it
         s.fresh().rows("text c", "addHearing 0 1 1 10", "text 1", "undo -> 0", "clearBuffer -> 2");
         // everything comes back, as the digest of a run without the undone calls tells
@@ -415,10 +417,10 @@ public final class PromisesTest {
     private static void cheapest() {
         Script s = relay("21 cheapest");
         s.rows("addHearing 0 1 100 33", "addHearing 2 1 100 33", "addHearing 0 4 100 33", "addHearing 2 4 100 33",
-                "cheapest 0 0 -> 127", "cheapest 0 1 -> 3", "cheapest 0 2 -> 0", "cheapest 0 3 -> 1", "cheapest 0 4 -> 2",
-                "cheapest 2 0 -> 297", "cheapest 2 1 -> 1", "cheapest 2 2 -> 3", "cheapest 2 3 -> -1",
-                "cheapest 2 4 -> -1", "cheapest 3 0 -> -1", "cheapest 3 1 -> -1", "cheapest 3 2 -> -1",
-                "assign 1 0 1 2", "cheapest 0 0 -> 297", "cheapest 0 1 -> 1", "cheapest 0 2 -> 3",
+                "cheapest 0 0 -> 127", "cheapest 0 1 -> 3", "cheapest 0 2 -> 0", "cheapest 0 3 -> 1",
+                "cheapest 0 4 -> 2", "cheapest 2 0 -> 297", "cheapest 2 1 -> 1", "cheapest 2 2 -> 3",
+                "cheapest 2 3 -> -1", "cheapest 2 4 -> -1", "cheapest 3 0 -> -1", "cheapest 3 1 -> -1",
+                "cheapest 3 2 -> -1", "assign 1 0 1 2", "cheapest 0 0 -> 297", "cheapest 0 1 -> 1", "cheapest 0 2 -> 3",
                 "cheapest 1 0 -> 127", "cheapest 1 4 -> 2", "assign 2 3 -1 -1", "cheapest 0 0 -> -1",
                 "cheapest 0 4 -> -1", "vacate 2", "cheapest 2 0 -> -1", "cheapest 0 2 -> 3", "pass 100",
                 "cheapest 0 0 -> -1", "cheapest 4 0 -> IndexOutOfBounds", "cheapest -1 0 -> IndexOutOfBounds",
@@ -471,11 +473,12 @@ public final class PromisesTest {
     }
 
     private static void mannable() {
-        new Script("24 mannable").rows("mannable -> 0", "addHearing 0 1 10 10", "mannable -> 0", "addInterpreter 3 7 10",
-                "mannable -> 1", "addHearing 0 1 15 10", "mannable -> 1", "addHearing 0 1 20 10", "mannable -> 2",
-                "addInterpreter 3 7 10", "mannable -> 3", "assign 0 0 -1 -1", "mannable -> 2", "vacate 2",
-                "mannable -> 1", "count 4 -> 1", "addHearing 1 2 30 10", "mannable -> 1", "addInterpreter 5 5 1",
-                "mannable -> 1", "certify 2 7", "mannable -> 2", "pass 15", "mannable -> 1", "pass 15", "mannable -> 0");
+        new Script("24 mannable").rows("mannable -> 0", "addHearing 0 1 10 10", "mannable -> 0",
+                "addInterpreter 3 7 10", "mannable -> 1", "addHearing 0 1 15 10", "mannable -> 1",
+                "addHearing 0 1 20 10", "mannable -> 2", "addInterpreter 3 7 10", "mannable -> 3", "assign 0 0 -1 -1",
+                "mannable -> 2", "vacate 2", "mannable -> 1", "count 4 -> 1", "addHearing 1 2 30 10", "mannable -> 1",
+                "addInterpreter 5 5 1", "mannable -> 1", "certify 2 7", "mannable -> 2", "pass 15", "mannable -> 1",
+                "pass 15", "mannable -> 0");
         // by ascending numbers, each time the cheapest by the rates that there are
         new Script("24 mannable").rows("addInterpreter 3 7 9", "addInterpreter 7 7 8", "addHearing 0 1 10 10",
                 "addHearing 0 2 10 10", "mannable -> 1", "undo", "undo", "undo", "addInterpreter 7 7 10",
@@ -501,8 +504,8 @@ public final class PromisesTest {
         Script s = new Script("26 doneShare");
         s.rows("doneShare -> 0.0", "addInterpreter 3 7 10", "addHearing 0 1 1 10", "addHearing 0 1 20 10",
                 "addHearing 0 1 40 10", "assign 0 0 -1 -1", "assign 1 0 -1 -1", "assign 2 0 -1 -1", "doneShare -> 0.0",
-                "pass 12 -> 1", "doneShare -> 1.0", "vacate 1 -> 10", "doneShare -> 0.5", "set 3 0", "set 2 0", "pass 30",
-                "hearing 2 10 -> 5", "doneShare -> 0.4");
+                "pass 12 -> 1", "doneShare -> 1.0", "vacate 1 -> 10", "doneShare -> 0.5", "set 3 0", "set 2 0",
+                "pass 30", "hearing 2 10 -> 5", "doneShare -> 0.4");
         s.fresh().rows("addInterpreter 3 7 10", "addHearing 0 1 1 10", "assign 0 0 -1 -1", "vacate 0 -> 10",
                 "doneShare -> 0.0");
     }
@@ -518,8 +521,8 @@ public final class PromisesTest {
     private static void digest() {
         long empty = hash(0, 0, 0, 0, 0, 0, 0, 0, 0, 0, 0, 0, 0, 2, 1, 1, 600, 60, 1440, 20, 0, 1022, 1022, 1022, 0, 0);
         Script s = new Script("27 digest").rows("digest -> " + empty);
-        s.rows("text c!", "digest -> " + hash(0, 0, 0, 0, 0, 0, 0, 0, 0, 0, 0, 0, 0, 2, 1, 1, 600, 60, 1440, 20, 0, 1022,
-                1022, 1022, 0, 2, 99, 33));
+        s.rows("text c!", "digest -> " + hash(0, 0, 0, 0, 0, 0, 0, 0, 0, 0, 0, 0, 0, 2, 1, 1, 600, 60, 1440, 20, 0,
+                1022, 1022, 1022, 0, 2, 99, 33));
         s.fresh().rows("addInterpreter 3 7 10", "addHearing 0 1 1 10", "addHearing 2 4 59 20", "assign 0 0 -1 -1",
                 "pass 11 -> 1",
                 // 10 of rest from the 20 that ten minutes of work brought
@@ -557,12 +560,11 @@ public final class PromisesTest {
         for (int rate : new int[] {1, 3, 7, 20, 90, 100}) {
             new Script("27 digest, shares").rows("addInterpreter 3 7 1", "addInterpreter 3 7 " + rate,
                     "addHearing 0 1 1 10", "addHearing 0 1 30 240", "assign 0 0 -1 -1", "assign 1 1 -1 -1", "pass 11",
-                    "vacate 1 -> " + rate * 24, "doneShare -> " + 1.0 / (1 + rate * 24),
-                    "digest -> " + hash(2, 2, 11, 0, 0, 1, 0, 1, 1 + rate * 24, rate * 24, 0, 0, 6,
-                            2, 1, 1, 600, 60, 1440, 20, 3, 7, 1, 20, 1, 0, -1, 10, 0, 3, 7, rate, 0, rate * 24, 0, -1, 0, 0,
-                            0, 1, 1, 10, 1, 1, 0, -1, -1, 1, 1, 0, -1, -1, -1, -1, -1, -1,
-                            0, 1, 30, 240, 3, 1, 1, -1, -1, rate * 24, rate * 24, 0, -1, -1, -1, -1, -1, -1,
-                            0, 1020, 1020, 1020, Double.doubleToLongBits(1.0 / (1 + rate * 24)), 0));
+                    "vacate 1 -> " + rate * 24, "doneShare -> " + 1.0 / (1 + rate * 24), "digest -> " + hash(2, 2, 11,
+                    0, 0, 1, 0, 1, 1 + rate * 24, rate * 24, 0, 0, 6, 2, 1, 1, 600, 60, 1440, 20, 3, 7, 1, 20, 1, 0, -1,
+                    10, 0, 3, 7, rate, 0, rate * 24, 0, -1, 0, 0, 0, 1, 1, 10, 1, 1, 0, -1, -1, 1, 1, 0, -1, -1, -1, -1,
+                    -1, -1, 0, 1, 30, 240, 3, 1, 1, -1, -1, rate * 24, rate * 24, 0, -1, -1, -1, -1, -1, -1, 0, 1020,
+                    1020, 1020, Double.doubleToLongBits(1.0 / (1 + rate * 24)), 0));
         }
     }
 

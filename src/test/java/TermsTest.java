@@ -162,8 +162,8 @@ public final class TermsTest {
         for (int i = 0; i < 28; i++) {
             s.rows("addHearing 0 1 " + (i + 1) + " 10 -> " + i).refuses(INDEX, "hearing " + (i + 1) + " 2");
         }
-        s.rows("text r2@71+10,a3@72+11", "addList -> 30", "hearing 0 2 -> 1", "hearing 27 2 -> 28", "hearing 28 2 -> 71",
-                "hearing 29 2 -> 72", "hearing 29 0 -> 2").refuses(STATE, "addHearing 0 1 1 10")
+        s.rows("text r2@71+10,a3@72+11", "addList -> 30", "hearing 0 2 -> 1", "hearing 27 2 -> 28",
+                "hearing 28 2 -> 71", "hearing 29 2 -> 72", "hearing 29 0 -> 2").refuses(STATE, "addHearing 0 1 1 10")
                 .refuses(INDEX, "hearing 30 2", "hearing -1 2").rows("count 1 -> 30", "hearing 29 11 -> 1");
     }
 
@@ -182,10 +182,10 @@ public final class TermsTest {
     }
 
     private static void itsStatus() {
-        says("It is listed, done, adjourned or vacated (0 to 3)").rows(ONE, "addHearing 0 1 5 10", "addHearing 0 1 5 10",
-                "addHearing 0 1 5 10", "assign 0 0 -1 -1", "hearing 0 4 -> 0", "hearing 1 4 -> 0", "vacate 2 -> 0",
-                "hearing 2 4 -> 3", "pass 15 -> 1", "hearing 0 4 -> 1", "hearing 1 4 -> 2", "hearing 2 4 -> 3",
-                "count 3 -> 0", "count 5 -> 1", "count 6 -> 1", "count 7 -> 1");
+        says("It is listed, done, adjourned or vacated (0 to 3)").rows(ONE, "addHearing 0 1 5 10",
+                "addHearing 0 1 5 10", "addHearing 0 1 5 10", "assign 0 0 -1 -1", "hearing 0 4 -> 0",
+                "hearing 1 4 -> 0", "vacate 2 -> 0", "hearing 2 4 -> 3", "pass 15 -> 1", "hearing 0 4 -> 1",
+                "hearing 1 4 -> 2", "hearing 2 4 -> 3", "count 3 -> 0", "count 5 -> 1", "count 6 -> 1", "count 7 -> 1");
     }
 
     private static void manned() {
@@ -193,8 +193,8 @@ public final class TermsTest {
                 "addHearing 0 1 5 10", "hearing 0 5 -> 0", "count 4 -> 0", "assign 0 0 -1 -1", "hearing 0 5 -> 1",
                 "count 4 -> 1", "assign 0 1 0 -1", "hearing 0 5 -> 2", "count 4 -> 1", "assign 0 2 0 1",
                 "hearing 0 5 -> 3", "hearing 0 6 -> 2", "hearing 0 7 -> 0", "hearing 0 8 -> 1", "count 4 -> 1",
-                "release 0 -> 3", "count 4 -> 0").refuses(ARGUMENT, "assign 0 1 1 -1", "assign 0 1 0 0", "assign 0 1 0 1")
-                .refuses(INDEX, "assign 0 -1 -1 -1");
+                "release 0 -> 3", "count 4 -> 0").refuses(ARGUMENT, "assign 0 1 1 -1", "assign 0 1 0 0",
+                "assign 0 1 0 1").refuses(INDEX, "assign 0 -1 -1 -1");
     }
 
     private static void firstSpeaksItsLanguage() {
@@ -253,8 +253,8 @@ public final class TermsTest {
 
     private static void busyForItsOwn() {
         says("in the chain of another listed hearing").rows(ONE, ONE, "addHearing 0 1 5 10", "assign 0 0 -1 -1",
-                "whyNot 0 0 -1 -1 -> 0", "assign 0 0 -1 -1 -> 10", "assign 0 0 1 -1 -> 24", "swap 0 1 0 -> IllegalArgument",
-                "cheapest 0 0 -> 10", "cheapest 0 2 -> 0", "hearing 0 11 -> 0");
+                "whyNot 0 0 -1 -1 -> 0", "assign 0 0 -1 -1 -> 10", "assign 0 0 1 -1 -> 24",
+                "swap 0 1 0 -> IllegalArgument", "cheapest 0 0 -> 10", "cheapest 0 2 -> 0", "hearing 0 11 -> 0");
     }
 
     private static void busyForListedOnes() {
@@ -305,11 +305,12 @@ public final class TermsTest {
 
     /** Two, and then three, who each earn the same. */
     private static void several(int rate, int length, int percent, int each) {
-        says("if the chain has several interpreters, that times (100 + setting 6), divided by 100 (after that rounding): "
-                + percent).times(3, "addInterpreter 3 7 " + rate).rows("addHearing 0 1 1 " + length,
-                "set 6 " + percent, "assign 0 0 1 -1 -> " + 2 * each, "assign 0 0 1 2 -> " + 3 * each,
-                "hearing 0 9 -> " + 3 * each, "pass 500 -> 1", "interpreter 0 4 -> " + each,
-                "interpreter 1 4 -> " + each, "interpreter 2 4 -> " + each, "count 8 -> " + 3 * each);
+
+                says("if the chain has several interpreters, that times (100 + setting 6), divided by 100 (after that rounding): "
+                + percent).times(3, "addInterpreter 3 7 " + rate).rows("addHearing 0 1 1 " + length, "set 6 " + percent,
+                "assign 0 0 1 -1 -> " + 2 * each, "assign 0 0 1 2 -> " + 3 * each, "hearing 0 9 -> " + 3 * each,
+                "pass 500 -> 1", "interpreter 0 4 -> " + each, "interpreter 1 4 -> " + each, "interpreter 2 4 -> "
+                + each, "count 8 -> " + 3 * each);
     }
 
     private static void severalEarnMore() {
@@ -339,14 +340,14 @@ public final class TermsTest {
     private static void halvesWhenAdjourned() {
         Script s = says("for an adjourned one half of that (each one by itself)");
         s.times(3, "addInterpreter 3 7 5").rows("set 3 0", "set 6 0", "addHearing 0 1 1 10", "addHearing 0 1 11 10",
-                "assign 0 0 -1 -1 -> 5", "assign 1 0 1 2 -> 15", "pass 11 -> 1", "hearing 1 4 -> 2", "hearing 1 10 -> 6",
-                "interpreter 0 4 -> 7", "interpreter 1 4 -> 2", "interpreter 2 4 -> 2", "count 8 -> 11",
-                "count 10 -> 6", "count 9 -> 0");
+                "assign 0 0 -1 -1 -> 5", "assign 1 0 1 2 -> 15", "pass 11 -> 1", "hearing 1 4 -> 2",
+                "hearing 1 10 -> 6", "interpreter 0 4 -> 7", "interpreter 1 4 -> 2", "interpreter 2 4 -> 2",
+                "count 8 -> 11", "count 10 -> 6", "count 9 -> 0");
         // 1 earned: half of it is nothing; with the extra pay 2, of which half is 1
         s.fresh().rows("addInterpreter 3 7 1", "addInterpreter 3 7 1", "set 3 0", "set 6 100", "addHearing 0 1 1 10",
                 "addHearing 0 1 11 10", "assign 0 0 -1 -1 -> 1", "assign 1 0 -1 -1 -> 1", "pass 11 -> 1",
-                "hearing 1 4 -> 2", "hearing 1 10 -> 0", "count 10 -> 0", "undo", "assign 1 1 0 -1 -> 4", "pass 11 -> 1",
-                "hearing 1 10 -> 2", "interpreter 1 4 -> 1", "interpreter 0 4 -> 2");
+                "hearing 1 4 -> 2", "hearing 1 10 -> 0", "count 10 -> 0", "undo", "assign 1 1 0 -1 -> 4",
+                "pass 11 -> 1", "hearing 1 10 -> 2", "interpreter 1 4 -> 1", "interpreter 0 4 -> 2");
     }
 
     private static void halvesWhenVacated() {
@@ -416,8 +417,9 @@ public final class TermsTest {
 
     private static void settingsAsThen() {
         Script s = says("(By settings as they are then.)");
-        s.rows(ONE, ONE, "addHearing 0 1 1 10", "assign 0 0 1 -1 -> 24", "set 6 50", "pass 11 -> 1", "hearing 0 10 -> 30",
-                "set 6 0", "hearing 0 10 -> 30", "interpreter 0 4 -> 15", "count 8 -> 30", "hearing 0 9 -> 20");
+        s.rows(ONE, ONE, "addHearing 0 1 1 10", "assign 0 0 1 -1 -> 24", "set 6 50", "pass 11 -> 1",
+                "hearing 0 10 -> 30", "set 6 0", "hearing 0 10 -> 30", "interpreter 0 4 -> 15", "count 8 -> 30",
+                "hearing 0 9 -> 20");
         s.fresh().rows(ONE, ONE, "addHearing 0 1 100 10", "assign 0 0 1 -1 -> 24", "set 6 60", "vacate 0 -> 16",
                 "undo", "set 4 101", "vacate 0 -> 32", "set 4 0", "set 5 0", "hearing 0 10 -> 32", "count 9 -> 32");
         s.fresh().rows(ONE, ONE, "set 3 0", "addHearing 0 1 1 10", "addHearing 0 1 11 10", "assign 0 0 -1 -1",
@@ -427,28 +429,31 @@ public final class TermsTest {
     // ---- a minute
 
     private static void minuteAtFirst() {
-        says("There is a number of the minute, at first 0").rows("count 2 -> 0", "addHearing 0 1 1 10", "hearing 0 2 -> 1");
+        says("There is a number of the minute, at first 0").rows("count 2 -> 0", "addHearing 0 1 1 10",
+                "hearing 0 2 -> 1");
     }
 
     private static void startedHearing() {
         says("its start is at most the present minute, before it becomes more").rows(ONE, "addHearing 0 1 3 10",
-                "assign 0 0 -1 -1", "pass 2", "interpreter 0 6 -> -1", "count 11 -> 0", "pass 1", "interpreter 0 3 -> 0",
-                "interpreter 0 7 -> 0", "interpreter 0 6 -> 0", "count 11 -> 1", "pass 1", "interpreter 0 3 -> 2",
-                "interpreter 0 7 -> 1", "pass 8", "interpreter 0 3 -> 18", "interpreter 0 7 -> 9",
-                "interpreter 0 6 -> 0", "pass 1 -> 1", "interpreter 0 3 -> 20", "interpreter 0 7 -> 10",
-                "interpreter 0 6 -> -1", "count 11 -> 0", "pass 1", "interpreter 0 3 -> 19", "interpreter 0 7 -> 10");
+                "assign 0 0 -1 -1", "pass 2", "interpreter 0 6 -> -1", "count 11 -> 0", "pass 1",
+                "interpreter 0 3 -> 0", "interpreter 0 7 -> 0", "interpreter 0 6 -> 0", "count 11 -> 1", "pass 1",
+                "interpreter 0 3 -> 2", "interpreter 0 7 -> 1", "pass 8", "interpreter 0 3 -> 18",
+                "interpreter 0 7 -> 9", "interpreter 0 6 -> 0", "pass 1 -> 1", "interpreter 0 3 -> 20",
+                "interpreter 0 7 -> 10", "interpreter 0 6 -> -1", "count 11 -> 0", "pass 1", "interpreter 0 3 -> 19",
+                "interpreter 0 7 -> 10");
     }
 
     private static void tiring() {
-        Script s = says("gets more tired by setting 0, and, if that chain has several interpreters, by setting 1 besides");
+
+                Script s = says("gets more tired by setting 0, and, if that chain has several interpreters, by setting 1 besides");
         s.rows(ONE, ONE, ONE, ONE, ONE, ONE, "addHearing 0 1 1 10", "addHearing 0 1 1 10", "addHearing 0 1 1 10",
                 "assign 0 0 -1 -1", "assign 1 1 2 -1", "assign 2 3 4 5", "pass 2");
         for (int i = 0; i < 6; i++) {
             s.rows("interpreter " + i + " 3 -> " + (i == 0 ? 2 : 3));
         }
         s.rows("set 0 0", "pass 1", "interpreter 0 3 -> 2", "interpreter 1 3 -> 4", "set 1 0", "pass 1",
-                "interpreter 1 3 -> 4", "interpreter 5 3 -> 4", "set 0 20", "set 1 20", "pass 1", "interpreter 0 3 -> 22",
-                "interpreter 1 3 -> 44", "interpreter 3 3 -> 44", "interpreter 5 7 -> 4");
+                "interpreter 1 3 -> 4", "interpreter 5 3 -> 4", "set 0 20", "set 1 20", "pass 1",
+                "interpreter 0 3 -> 22", "interpreter 1 3 -> 44", "interpreter 3 3 -> 44", "interpreter 5 7 -> 4");
     }
 
     private static void tiringAtMost() {
@@ -465,8 +470,8 @@ public final class TermsTest {
     private static void restAtLeast() {
         says("each other one gets less tired by setting 2, but at least 0").rows(ONE, "set 0 3", "set 2 7",
                 "addHearing 0 1 1 10", "assign 0 0 -1 -1", "pass 1", "interpreter 0 3 -> 0", "pass 10 -> 1",
-                "interpreter 0 3 -> 30", "pass 1", "interpreter 0 3 -> 23", "pass 3", "interpreter 0 3 -> 2",
-                "pass 1", "interpreter 0 3 -> 0", "undo", "set 2 2", "pass 1", "interpreter 0 3 -> 0", "undo", "set 2 0",
+                "interpreter 0 3 -> 30", "pass 1", "interpreter 0 3 -> 23", "pass 3", "interpreter 0 3 -> 2", "pass 1",
+                "interpreter 0 3 -> 0", "undo", "set 2 2", "pass 1", "interpreter 0 3 -> 0", "undo", "set 2 0",
                 "pass 500", "interpreter 0 3 -> 2", "set 2 1", "pass 1", "interpreter 0 3 -> 1", "pass 500",
                 "interpreter 0 3 -> 0");
     }
@@ -494,10 +499,10 @@ public final class TermsTest {
     }
 
     private static void notMannedAtItsEnd() {
-        says("one that is not manned is adjourned (without pay)").rows(ONE, "addHearing 0 1 1 10", "addHearing 0 1 2 10",
-                "assign 1 0 -1 -1", "release 1", "pass 10 -> 0", "hearing 0 4 -> 0", "pass 1 -> 0", "hearing 0 4 -> 2",
-                "hearing 0 10 -> 0", "hearing 1 4 -> 0", "pass 1 -> 0", "hearing 1 4 -> 2", "count 6 -> 2", "count 8 -> 0",
-                "count 10 -> 0", "interpreter 0 4 -> 0");
+        says("one that is not manned is adjourned (without pay)").rows(ONE, "addHearing 0 1 1 10",
+                "addHearing 0 1 2 10", "assign 1 0 -1 -1", "release 1", "pass 10 -> 0", "hearing 0 4 -> 0",
+                "pass 1 -> 0", "hearing 0 4 -> 2", "hearing 0 10 -> 0", "hearing 1 4 -> 0", "pass 1 -> 0",
+                "hearing 1 4 -> 2", "count 6 -> 2", "count 8 -> 0", "count 10 -> 0", "interpreter 0 4 -> 0");
     }
 
     private static void aboveTheLimit() {
@@ -513,9 +518,9 @@ public final class TermsTest {
     }
 
     private static void notMannedAtItsStart() {
-        says("if they are manned").rows(ONE, "set 3 0", "addHearing 0 1 1 10", "addHearing 0 1 11 10", "assign 0 0 -1 -1",
-                "pass 11 -> 1", "interpreter 0 3 -> 20", "hearing 1 4 -> 0", "count 6 -> 0", "pass 10 -> 0",
-                "hearing 1 4 -> 2");
+        says("if they are manned").rows(ONE, "set 3 0", "addHearing 0 1 1 10", "addHearing 0 1 11 10",
+                "assign 0 0 -1 -1", "pass 11 -> 1", "interpreter 0 3 -> 20", "hearing 1 4 -> 0", "count 6 -> 0",
+                "pass 10 -> 0", "hearing 1 4 -> 2");
     }
 
     private static void somebodyOfTheChain() {
@@ -563,13 +568,11 @@ public final class TermsTest {
     // ---- settings
 
     private static void settingRange(int setting, int first, int most) {
-        says("Settings " + setting + ": 0 to " + most + ", at first " + first).rows("setting " + setting + " -> " + first)
-                .refusesEach(ARGUMENT, "set " + setting + " ?", LEAST, -1, most + 1, MOST)
-                .rows("set " + setting + " 0 -> " + first, "setting " + setting + " -> 0",
-                "set " + setting + " " + most + " -> 0", "setting " + setting + " -> " + most,
-                "set " + setting + " " + (most - 1) + " -> " + most)
-                .refusesEach(ARGUMENT, "set " + setting + " ?", -1, most + 1)
-                .rows("setting " + setting + " -> " + (most - 1));
+        says("Settings " + setting + ": 0 to " + most + ", at first " + first).rows("setting " + setting + " -> "
+                + first).refusesEach(ARGUMENT, "set " + setting + " ?", LEAST, -1, most + 1, MOST).rows("set " + setting
+                + " 0 -> " + first, "setting " + setting + " -> 0", "set " + setting + " " + most + " -> 0", "setting "
+                + setting + " -> " + most, "set " + setting + " " + (most - 1) + " -> " + most).refusesEach(ARGUMENT,
+                "set " + setting + " ?", -1, most + 1).rows("setting " + setting + " -> " + (most - 1));
     }
 
     private static void settingRanges() {
@@ -587,8 +590,8 @@ public final class TermsTest {
                 "addHearing 0 1 61 10", "assign 0 0 -1 -1", "assign 1 0 -1 -1", "set 3 1000", "pass 61 -> 1",
                 "interpreter 0 3 -> 1000", "hearing 1 4 -> 0", "undo", "set 3 999", "pass 61 -> 1", "hearing 1 4 -> 2");
         says("2: rest, 0 to 20").rows(ONE, "addHearing 0 1 1 20", "assign 0 0 -1 -1", "set 2 20", "pass 21 -> 1",
-                "interpreter 0 3 -> 40", "pass 1", "interpreter 0 3 -> 20", "set 2 0", "pass 9", "interpreter 0 3 -> 20",
-                "set 2 20", "pass 1", "interpreter 0 3 -> 0");
+                "interpreter 0 3 -> 40", "pass 1", "interpreter 0 3 -> 20", "set 2 0", "pass 9",
+                "interpreter 0 3 -> 20", "set 2 20", "pass 1", "interpreter 0 3 -> 0");
     }
 
     // ---- input text
@@ -598,7 +601,8 @@ public final class TermsTest {
         for (int i = 1; i <= 60; i++) {
             s.rows("append 99 -> " + i);
         }
-        s.refuses(STATE, "append 99").rows("firstError -> 1", "clearBuffer -> 60", "append 99 -> 1", "clearBuffer -> 1");
+        s.refuses(STATE, "append 99").rows("firstError -> 1", "clearBuffer -> 60", "append 99 -> 1",
+                "clearBuffer -> 1");
     }
 
     private static void notAList(String text) {
@@ -680,8 +684,8 @@ public final class TermsTest {
     private static void leadingZeros() {
         Script s = says("Numbers are without leading zeros");
         for (String start : new String[] {"c1@", "c1@1+", "c1@1+10,c1@", "c1@1+10,c1@2+"}) {
-            s.rows("text " + start + "0", "firstError -> " + start.length(), "text 10", "firstError -> " + start.length())
-                    .refuses(ARGUMENT, "addList").fresh();
+            s.rows("text " + start + "0", "firstError -> " + start.length(), "text 10", "firstError -> "
+                    + start.length()).refuses(ARGUMENT, "addList").fresh();
         }
         s.rows("text c1@10+100", "firstError -> 9", "addList -> 1", "hearing 0 2 -> 10", "hearing 0 3 -> 100");
         notAList("c01@1+10");
@@ -689,8 +693,9 @@ public final class TermsTest {
 
     private static void leftToRight() {
         says("The buffer is read from left to right").rows("text c1@1+10x,c0", "firstError -> 7", "append 99 -> 12",
-                "firstError -> 7").refuses(ARGUMENT, "addList").rows("clearBuffer -> 12", "text c1@2001+9", "firstError -> 6",
-                "clearBuffer -> 9", "text c1@1+9,", "firstError -> 6", "clearBuffer -> 7", "text c1@1+10", "firstError -> 7");
+                "firstError -> 7").refuses(ARGUMENT, "addList").rows("clearBuffer -> 12", "text c1@2001+9",
+                "firstError -> 6", "clearBuffer -> 9", "text c1@1+9,", "firstError -> 6", "clearBuffer -> 7",
+                "text c1@1+10", "firstError -> 7");
     }
 
     /** After this beginning, these characters and no other ones can follow. */
@@ -702,7 +707,8 @@ public final class TermsTest {
             }
             court.append(code);
             boolean fine = characters.indexOf(code) >= 0;
-            Script.due("a character is a syntax error if no list of hearings begins with the characters before it and this "
+
+                    Script.due("a character is a syntax error if no list of hearings begins with the characters before it and this "
                     + "character: " + beginning + (char) code, beginning.length() + (fine ? 1 : 0), court.firstError());
         }
     }
@@ -764,9 +770,9 @@ public final class TermsTest {
     /** Of these calls, the last one is undone. */
     private static void undone(String... calls) {
         String last = calls[calls.length - 1];
-        Script s = says("all, also what is counted so far: " + last).rows("addInterpreter 3 7 10", "addInterpreter 3 7 9",
-                "addHearing 0 1 5 15", "addHearing 1 1 30 25", "addHearing 2 1 60 10", "set 3 20", "assign 0 0 -1 -1",
-                "assign 1 0 1 -1");
+        Script s = says("all, also what is counted so far: " + last).rows("addInterpreter 3 7 10",
+                "addInterpreter 3 7 9", "addHearing 0 1 5 15", "addHearing 1 1 30 25", "addHearing 2 1 60 10",
+                "set 3 20", "assign 0 0 -1 -1", "assign 1 0 1 -1");
         for (int i = 0; i < calls.length - 1; i++) {
             s.rows(calls[i]);
         }
@@ -792,12 +798,12 @@ public final class TermsTest {
         undone("pass 12", "vacate 1");
         undone("pass 12", "pass 8");
         undone("pass 12", "pass 500");
-        Script s = says("also what is counted so far").rows(ONE, "set 3 19", "addHearing 0 1 1 10", "addHearing 0 1 11 10",
-                "addHearing 0 1 40 10", "assign 0 0 -1 -1", "assign 1 0 -1 -1", "assign 2 0 -1 -1", "vacate 2 -> 10",
-                "pass 11 -> 1", "count 8 -> 25", "count 9 -> 10", "count 10 -> 5", "interpreter 0 4 -> 25",
-                "interpreter 0 7 -> 10", "undo", "count 8 -> 10", "count 9 -> 10", "count 10 -> 0",
-                "interpreter 0 4 -> 10", "interpreter 0 7 -> 0", "interpreter 0 3 -> 0", "undo", "count 8 -> 0",
-                "count 9 -> 0", "interpreter 0 4 -> 0", "hearing 2 10 -> 0");
+        Script s = says("also what is counted so far").rows(ONE, "set 3 19", "addHearing 0 1 1 10",
+                "addHearing 0 1 11 10", "addHearing 0 1 40 10", "assign 0 0 -1 -1", "assign 1 0 -1 -1",
+                "assign 2 0 -1 -1", "vacate 2 -> 10", "pass 11 -> 1", "count 8 -> 25", "count 9 -> 10", "count 10 -> 5",
+                "interpreter 0 4 -> 25", "interpreter 0 7 -> 10", "undo", "count 8 -> 10", "count 9 -> 10",
+                "count 10 -> 0", "interpreter 0 4 -> 10", "interpreter 0 7 -> 0", "interpreter 0 3 -> 0", "undo",
+                "count 8 -> 0", "count 9 -> 0", "interpreter 0 4 -> 0", "hearing 2 10 -> 0");
         s.rows("doneShare -> 0.0");
         // the chains of each of 30 hearings
         s = says("all: the chain of each hearing").rows(ONE, ONE, ONE).times(30, "addHearing 0 1 5 10");
@@ -833,9 +839,10 @@ public final class TermsTest {
     }
 
     private static void oldestIsDropped() {
-        says("the oldest one is dropped first").rows("set 0 11", "set 0 12", "set 0 13", "set 0 14", "set 0 15", "set 0 16",
-                "set 0 17", "undo -> 5", "setting 0 -> 16", "undo -> 4", "undo -> 3", "undo -> 2", "undo -> 1",
-                "setting 0 -> 12", "undo -> 0", "setting 0 -> 11").refuses(STATE, "undo").rows("setting 0 -> 11");
+        says("the oldest one is dropped first").rows("set 0 11", "set 0 12", "set 0 13", "set 0 14", "set 0 15",
+                "set 0 16", "set 0 17", "undo -> 5", "setting 0 -> 16", "undo -> 4", "undo -> 3", "undo -> 2",
+                "undo -> 1", "setting 0 -> 12", "undo -> 0", "setting 0 -> 11").refuses(STATE, "undo")
+                .rows("setting 0 -> 11");
     }
 
     /** The places for saved states are used again and again, from each one on. */
@@ -897,13 +904,14 @@ public final class TermsTest {
             refusedCall(STATE, call);
         }
         says("A call that throws an exception changes nothing: swap, pass, addHearing").rows(ONE, ONE,
-                "addHearing 0 1 1 10", "addHearing 0 1 1 10", "assign 0 0 -1 -1", "assign 1 1 -1 -1", "set 4 101", "set 4 102",
-                "set 4 103", "set 4 104", "set 4 105", "set 4 106", "swap 0 0 1 -> IllegalState", "undo -> 5",
-                "setting 4 -> 105");
+                "addHearing 0 1 1 10", "addHearing 0 1 1 10", "assign 0 0 -1 -1", "assign 1 1 -1 -1", "set 4 101",
+                "set 4 102", "set 4 103", "set 4 104", "set 4 105", "set 4 106", "swap 0 0 1 -> IllegalState",
+                "undo -> 5", "setting 4 -> 105");
         Script late = says("A call that throws an exception changes nothing: pass").times(40, "pass 500");
-        late.rows("set 4 101", "set 4 102", "set 4 103", "set 4 104", "set 4 105", "set 4 106", "pass 1 -> IllegalState",
-                "count 2 -> 20000", "undo -> 5", "setting 4 -> 105");
-        Script full = says("A call that throws an exception changes nothing: addHearing").times(30, "addHearing 0 1 1 10");
+        late.rows("set 4 101", "set 4 102", "set 4 103", "set 4 104", "set 4 105", "set 4 106",
+                "pass 1 -> IllegalState", "count 2 -> 20000", "undo -> 5", "setting 4 -> 105");
+        Script full = says("A call that throws an exception changes nothing: addHearing").times(30,
+                "addHearing 0 1 1 10");
         full.rows("set 4 101", "set 4 102", "set 4 103", "set 4 104", "set 4 105", "set 4 106",
                 "addHearing 0 1 1 10 -> IllegalState", "undo -> 5", "setting 4 -> 105");
         says("A call that throws an exception changes nothing: undo").rows("text ab").refuses(STATE, "undo")
