@@ -1,10 +1,15 @@
+import java.io.IOException;
 import java.lang.reflect.Constructor;
 import java.lang.reflect.Field;
 import java.lang.reflect.Member;
 import java.lang.reflect.Method;
 import java.lang.reflect.Modifier;
+import java.nio.file.Files;
+import java.nio.file.Path;
 import java.util.Arrays;
 import java.util.TreeSet;
+import java.util.regex.Matcher;
+import java.util.regex.Pattern;
 import java.util.stream.Collectors;
 
 /** The face that the document writes down, to the letter, and no other member that can be seen from outside. */
@@ -42,6 +47,8 @@ public final class FaceTest {
         "long digest()",
     };
 
+    private static final Pattern HEADING = Pattern.compile("(?m)^Ahead of the calls (.+) the interface says: (.+)\\.$");
+
     private static String told(Method method) {
         String types = Arrays.stream(method.getParameterTypes()).map(Class::getName).collect(Collectors.joining(","));
         String thrown = Arrays.stream(method.getExceptionTypes()).map(c -> " " + c.getSimpleName())
@@ -53,7 +60,7 @@ public final class FaceTest {
         return !Modifier.isPrivate(member.getModifiers()) && !member.isSynthetic();
     }
 
-    public static void main(String[] args) {
+    public static void main(String[] args) throws IOException {
         Class<?> face = CourtRelays.class;
         Script.due("the class", "public final", Modifier.toString(face.getModifiers()));
         TreeSet<String> methods = new TreeSet<>();
@@ -76,7 +83,42 @@ public final class FaceTest {
         }
         Script.due("NONE", -1, CourtRelays.NONE);
         insides(face, names);
+        standsAsInDocument();
         Script.finish();
+    }
+
+    private static String onOneLine(String text) {
+        return text.replaceAll("\\s+", " ");
+    }
+
+    /** What reflection cannot see: the names of the parameters, the order of the calls, the headings ahead of them. */
+    private static void standsAsInDocument() throws IOException {
+        String document = Files.readString(Path.of("../shared/DOC.md"));
+        String source = onOneLine(Files.readString(Path.of("src/main/java/CourtRelays.java")));
+        Matcher line = Pattern.compile("(?m)^ {4}(public .+);$").matcher(document);
+        int at = -1;
+        int lines = 0;
+        while (line.find()) {
+            int next = source.indexOf(line.group(1) + (line.group(1).endsWith("NONE = -1") ? ";" : " {"));
+            Script.due(line.group(1) + " stands behind the one before it", true, next > at);
+            at = next;
+            lines++;
+        }
+        Script.due("the members of the face", METHODS.length + 2, lines);
+        Matcher heading = HEADING.matcher(document);
+        int headings = 0;
+        while (heading.find()) {
+            String first = heading.group(1).replaceAll("`(\\w+)`.*", "$1");
+            String next = behind(source, "// " + heading.group(2) + " ");
+            Script.due(heading.group(2) + " stands ahead of " + first, true, next.matches("public \\w+ " + first + "\\(.*"));
+            headings++;
+        }
+        Script.due("the headings", 5, headings);
+    }
+
+    private static String behind(String source, String heading) {
+        int at = source.indexOf(heading);
+        return at < 0 ? "" : source.substring(at + heading.length());
     }
 
     /** What LANGUAGE.md asks of the class and those inside it, as far as it can be seen from here. */

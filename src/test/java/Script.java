@@ -6,19 +6,22 @@ import java.util.Set;
  * Runs rows of calls on an object, each written as it reads: "pass 10 -> 1", "pass 0 -> IllegalArgument" (the exception
  * without "Exception"). "text c1@5+10" appends each of the characters. "pass 10" takes any answer but an exception.
  *
- * With each row it also looks that a call that throws, or only asks, leaves the digest alone.
+ * With each row it also looks that a call that throws, or only asks, leaves the digest alone. If a call does not end,
+ * the whole test ends in its place.
  */
 final class Script {
     private static final Set<String> CHANGING = Set.of("addInterpreter", "addHearing", "certify", "set", "assign",
             "release", "swap", "vacate", "pass", "append", "clearBuffer", "addList", "undo");
-    private static int rows = 0;
-    private static int wrong = 0;
-
     private static final int MOST_CALLS = 512;
+    private static final long PATIENCE = 60_000;
+
+    private static int wrong = 0;
+    private static int rows = 0;
+    private static volatile int calls = 0;
 
     private final String title;
     private CourtRelays court = new CourtRelays();
-    private int calls = 0;
+    private int callsOfCourt = 0;
 
     Script(String title) {
         this.title = title;
@@ -31,6 +34,7 @@ final class Script {
             types[i] = int.class;
             values[i] = arguments[i];
         }
+        watchNextCall();
         try {
             Method method = target.getClass().getDeclaredMethod(name, types);
             method.setAccessible(true);
@@ -39,6 +43,32 @@ final class Script {
             return e.getCause().getClass().getSimpleName().replaceFirst("Exception$", "");
         } catch (ReflectiveOperationException e) {
             throw new IllegalStateException("no such call: " + name, e);
+        }
+    }
+
+    /** A call without an end would otherwise hold up the test, and all that come behind it. */
+    private static void watchNextCall() {
+        calls++;
+        if (calls > 1) {
+            return;
+        }
+        Thread watch = new Thread(() -> {
+            for (int seen = -1; seen != calls; ) {
+                seen = calls;
+                sleep();
+            }
+            System.out.println("a call does not end, after " + rows + " answers");
+            Runtime.getRuntime().halt(1);
+        });
+        watch.setDaemon(true);
+        watch.start();
+    }
+
+    private static void sleep() {
+        try {
+            Thread.sleep(PATIENCE);
+        } catch (InterruptedException e) {
+            throw new IllegalStateException(e);
         }
     }
 
@@ -52,7 +82,7 @@ final class Script {
 
     Script fresh() {
         court = new CourtRelays();
-        calls = 0;
+        callsOfCourt = 0;
         return this;
     }
 
@@ -119,10 +149,11 @@ final class Script {
 
     /** The court for one more call; what it answers after so many calls is free, so no row may lean on it. */
     private CourtRelays counted() {
-        calls++;
-        if (calls > MOST_CALLS) {
+        callsOfCourt++;
+        if (callsOfCourt > MOST_CALLS) {
             throw new IllegalStateException(title + ": too many calls on one object");
         }
+        watchNextCall();
         return court;
     }
 
